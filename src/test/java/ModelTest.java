@@ -1,0 +1,184 @@
+/** Runs of calls that are drawn by a fixed row of numbers, with the answers of the program beside those of the model. */
+public final class ModelTest {
+    private static final String[] NAMES = {"a", "b", "c", "d", "a.o", "b.o", "a.c", "b.c", "a.h", "b.y", "a.c.o", "x",
+        "y", "_9", "longname", ".c", ".o", ".c.o", "a.y", "q.h.y"};
+    private static final String[] BAD_NAMES = {"toolongna", "A", "a-b", "a\t", "", ".PHONY", "a/b", ">", ".SUFFIXES"};
+    private static final String[] SUFFIXES = {".c", ".o", ".y", ".h", ".c.o", ".h.y", ".a", ".b", "..", "._"};
+    private static final String[] BAD_SUFFIXES = {".", "c", "a.c", ".C", ".toolongs"};
+    private static final String[] REFERENCES = {"$@", "$<", "$?", "$*", "$$", "$A", "$B", "$(C)", "$(D)", "$E",
+        "$(A:.c=.o)", "$(B:=.k)", "$(C:a=)", "$(D:b=c d)", "$(A:.o=.c)", "$(E:x=y=z)"};
+    private static final String[] BAD_REFERENCES = {"$", "$(", "$(A", "$(1)", "$(A:b)", "$a", "$(A=b)", "$(:a=b)",
+        "$()", "$(AB)", "$(@)"};
+
+    private long seed;
+
+    private ModelTest(long seed) {
+        this.seed = seed * 2862933555777941757L + 3037000493L;
+    }
+
+    public static void main(String[] args) {
+        int runs = args.length > 0 ? Integer.parseInt(args[0]) : 20000;
+        for (int run = 1; run <= runs; run++) {
+            new ModelTest(run).compare(run);
+        }
+        Probe.finish();
+    }
+
+    private int draw(int bound) {
+        seed = seed * 6364136223846793005L + 1442695040888963407L;
+        return (int) ((seed >>> 33) % bound);
+    }
+
+    private boolean chance(int inHundred) {
+        return draw(100) < inHundred;
+    }
+
+    private String pick(String[] from) {
+        return from[draw(from.length)];
+    }
+
+    private void compare(int run) {
+        RuleBuilder builder = new RuleBuilder();
+        Model model = new Model();
+        StringBuilder told = new StringBuilder("run ").append(run).append('\n');
+        int steps = 4 + draw(10);
+        for (int step = 0; step < steps; step++) {
+            String got;
+            String want;
+            int kind = step == 0 ? 0 : draw(12);
+            int number = chance(90) ? draw(64) : draw(80) - 10;
+            if (chance(40)) {
+                number = 0;
+            }
+            String text = textFor(kind);
+            told.append(kind).append(' ').append(number).append(" <").append(text).append(">\n");
+            for (char c : text.toCharArray()) {
+                Probe.due("type", builder.type(c), model.type(c));
+            }
+            if (kind <= 1) {
+                got = "load " + builder.load();
+                want = "load " + model.load();
+            } else if (kind == 2) {
+                got = "set " + builder.set();
+                want = "set " + model.set();
+            } else if (kind <= 4) {
+                got = "edit " + builder.edit(number);
+                want = "edit " + model.edit(number);
+            } else if (kind == 5) {
+                got = "erase " + builder.erase();
+                want = "erase " + model.erase();
+            } else {
+                got = "build " + builder.build(number);
+                want = "build " + model.build(number);
+            }
+            String gotState = got + "\n" + Model.state(builder);
+            String wantState = want + "\n" + model.state();
+            if (!gotState.equals(wantState)) {
+                Probe.due(told.toString(), gotState, wantState);
+                return;
+            }
+            if (chance(95)) {
+                builder.scrap();
+                model.scrap();
+            }
+        }
+        Probe.due("the whole run", true, true);
+    }
+
+    private String textFor(int kind) {
+        if (kind <= 1) {
+            return ruleText();
+        }
+        if (kind == 2) {
+            return chance(90) ? letter() + "=" + value(2) : pick(BAD_REFERENCES);
+        }
+        if (kind <= 5) {
+            return name();
+        }
+        return chance(75) ? "" : name();
+    }
+
+    private String letter() {
+        return String.valueOf((char) ('A' + draw(6)));
+    }
+
+    private String name() {
+        return chance(98) ? pick(NAMES) : chance(50) ? pick(BAD_NAMES) : "n" + draw(60);
+    }
+
+    private String names(int most) {
+        StringBuilder all = new StringBuilder();
+        int count = draw(most + 1);
+        for (int i = 0; i < count; i++) {
+            all.append(i == 0 ? "" : chance(90) ? " " : "  ");
+            all.append(chance(12) ? pick(REFERENCES).replaceAll("\\$[@<?*]", "\\$A") : name());
+        }
+        return all.toString();
+    }
+
+    private String value(int most) {
+        StringBuilder all = new StringBuilder();
+        int count = draw(most + 1);
+        for (int i = 0; i < count; i++) {
+            all.append(i == 0 ? "" : chance(80) ? " " : chance(50) ? "" : "   ");
+            all.append(chance(30) ? pick(REFERENCES) : chance(2) ? pick(BAD_REFERENCES) : name());
+        }
+        return all.toString();
+    }
+
+    private String command() {
+        String marks = chance(60) ? "" : pick(new String[] {"-", "@", "+", "-@", "@+", "+-", "@-+", "--"});
+        String rest;
+        switch (draw(13)) {
+            case 0, 1: rest = "echo " + value(4); break;
+            case 2, 3, 4: rest = "touch " + (chance(70) ? "$@" : names(3)); break;
+            case 5: rest = "rm " + names(2); break;
+            case 6, 7: rest = chance(60) ? "cp $< $@" : "cp " + names(3); break;
+            case 8, 9: rest = "cat " + (chance(50) ? "$?" : names(3)) + (chance(95) ? " > " : " ") + (chance(80) ? "$@" : name()); break;
+            case 10: rest = "false " + name(); break;
+            case 11: rest = "true " + value(3); break;
+            default: rest = chance(30) ? "" : chance(50) ? "frob" : value(3); break;
+        }
+        return "\t" + marks + rest;
+    }
+
+    private String suffixes() {
+        StringBuilder all = new StringBuilder(".SUFFIXES:");
+        int count = draw(5);
+        for (int i = 0; i < count; i++) {
+            all.append(' ').append(chance(98) ? pick(SUFFIXES) : pick(BAD_SUFFIXES));
+        }
+        return all.toString();
+    }
+
+    private String line() {
+        switch (draw(15)) {
+            case 0: return suffixes();
+            case 1: return pick(new String[] {".PHONY", ".IGNORE", ".SILENT"}) + ": " + names(2);
+            case 2: return chance(85) ? ".DEFAULT:" + (chance(97) ? "" : " a") : "";
+            case 3, 4: return pick(SUFFIXES) + (chance(70) ? pick(SUFFIXES) : "") + ":" + (chance(90) ? "" : " a");
+            case 5, 6: return letter() + "=" + value(3);
+            case 7: return chance(80) ? "  # " + name() : " ";
+            default: return (chance(97) ? name() : "") + (chance(20) ? " " + names(2) : "") + (chance(98) ? ": " : " ")
+                    + names(4) + (chance(5) ? " # x" : "");
+        }
+    }
+
+    private String ruleText() {
+        StringBuilder all = new StringBuilder(chance(60) ? ".SUFFIXES: .c .o" + (chance(50) ? " .y\n" : "\n") : "");
+        int lines = 1 + draw(12);
+        for (int i = 0; i < lines; i++) {
+            String line = line();
+            all.append(line).append('\n');
+            boolean takes = line.contains(":") && !line.matches("\\.(SUFFIXES|PHONY|IGNORE|SILENT).*|.=.*");
+            int commands = takes && chance(60) ? 1 + draw(3) : chance(2) ? 1 : 0;
+            for (int j = 0; j < commands; j++) {
+                all.append(command()).append(chance(97) ? "\n" : "\\\n");
+            }
+        }
+        if (chance(10)) {
+            all.insert(draw(all.length()), pick(new String[] {"\\\n", ":", "$", "#", "\t", " ", "\n", "\\"}));
+        }
+        return all.toString();
+    }
+}
