@@ -389,7 +389,6 @@ public final class RuleBuilder {
             phony = false;
             ignored = false;
             silent = false;
-            isLatestTarget = false;
             ownCommands = NONE;
             fate = UNTOUCHED;
         }
@@ -451,6 +450,38 @@ public final class RuleBuilder {
             name.time = clock;
             name.content = content;
         }
+
+        void forgetRules() {
+            for (int k = 0; k < count; k++) {
+                names[k].forgetRules();
+            }
+        }
+
+        void forgetFates() {
+            for (int k = 0; k < count; k++) {
+                names[k].fate = Name.UNTOUCHED;
+            }
+        }
+
+        void forgetLatestTargets() {
+            for (int k = 0; k < count; k++) {
+                names[k].isLatestTarget = false;
+            }
+        }
+
+        /** Gives commands to the targets of the latest rule line; false if one had some already. */
+        boolean giveToLatestTargets(int commands) {
+            for (int k = 0; k < count; k++) {
+                Name name = names[k];
+                if (name.isLatestTarget && name.ownCommands != NONE) {
+                    return false;
+                }
+                if (name.isLatestTarget) {
+                    name.ownCommands = commands;
+                }
+            }
+            return true;
+        }
     }
 
     /** Expands texts, with the values of the macros. */
@@ -506,7 +537,6 @@ public final class RuleBuilder {
         boolean expand(String text, Name commandTarget) {
             target = commandTarget;
             out.clear();
-            longestYet = 0;
             Arrays.fill(emptyGrowth, UNKNOWN);
             return expandText(text, 0);
         }
@@ -642,18 +672,6 @@ public final class RuleBuilder {
         }
     }
 
-    /** A rule for the names with the ending to, or, when this is empty, for any names. */
-    private static final class Ending {
-        final String from;
-        final String to;
-        int commands = NONE;
-
-        Ending(String from, String to) {
-            this.from = from;
-            this.to = to;
-        }
-    }
-
     /** A command line without its marks; the commands of a rule line have the number of its first one. */
     private static final class Command {
         final String text;
@@ -694,8 +712,13 @@ public final class RuleBuilder {
 
         final Phrase[] suffixes = new Phrase[MOST_SUFFIXES];
         int suffixCount;
-        private final Ending[] endings = new Ending[MOST_ENDINGS];
+
+        // An ending rule goes from one suffix to another, or, for one suffix alone, to the empty text.
+        private final Phrase[] endingFrom = new Phrase[MOST_ENDINGS];
+        private final Phrase[] endingTo = new Phrase[MOST_ENDINGS];
+        private final int[] endingCommands = new int[MOST_ENDINGS];
         private int endingCount;
+
         private final Command[] commands = new Command[MOST_COMMANDS];
         private int commandCount;
 
@@ -757,32 +780,43 @@ public final class RuleBuilder {
             return 0;
         }
 
-        Ending findEnding(String from, String to) {
+        /** The number of the ending rule, or NONE. */
+        private int findEnding(String from, String to) {
             for (int i = 0; i < endingCount; i++) {
-                if (endings[i].from.equals(from) && endings[i].to.equals(to)) {
-                    return endings[i];
+                if (endingFrom[i].text.equals(from) && endingTo[i].text.equals(to)) {
+                    return i;
                 }
             }
-            return null;
+            return NONE;
         }
 
-        /** An ending rule without commands, in the place of an earlier one for the same; null if it is one too many. */
-        Ending renewEnding(String from, String to) {
-            Ending ending = findEnding(from, to);
-            if (ending != null) {
-                ending.commands = NONE;
-                return ending;
+        /** An ending rule without commands, in the place of an earlier one for the same; NONE if it is one too many. */
+        int renewEnding(String from, String to) {
+            int ending = findEnding(from, to);
+            if (ending == NONE && endingCount < MOST_ENDINGS) {
+                ending = endingCount;
+                endingFrom[ending] = new Phrase(from);
+                endingTo[ending] = new Phrase(to);
+                endingCount++;
             }
-            if (endingCount == MOST_ENDINGS) {
-                return null;
+            giveEndingCommands(ending, NONE);
+            return ending;
+        }
+
+        void giveEndingCommands(int ending, int first) {
+            if (ending >= 0 && ending < endingCount) {
+                endingCommands[ending] = first;
             }
-            endings[endingCount] = new Ending(from, to);
-            endingCount++;
-            return endings[endingCount - 1];
+        }
+
+        /** The commands of an ending rule, or NONE if it has none or there is no such rule. */
+        int commandsOfEnding(String from, String to) {
+            int ending = findEnding(from, to);
+            return ending == NONE ? NONE : endingCommands[ending];
         }
 
         boolean addPrerequisite(Name target, Name prerequisite) {
-            if (prerequisiteCount == MOST_PREREQUISITES) {
+            if (prerequisite == null || prerequisiteCount == MOST_PREREQUISITES) {
                 return false;
             }
             targets[prerequisiteCount] = target;
@@ -824,7 +858,7 @@ public final class RuleBuilder {
         private final Words words;
         private final Text line = new Text(LONGEST_DRAFT);
         private int latestKind;
-        private Ending latestEnding;
+        private int latestEnding;
         private int latestCommands;
 
         Reader(Store store, Rules rules, Expander expander, Words words) {
@@ -863,12 +897,8 @@ public final class RuleBuilder {
         private void forgetAll() {
             rules.forget();
             expander.forgetDefinitions();
-            for (int k = 0; k < store.count(); k++) {
-                store.at(k).forgetRules();
-            }
+            store.forgetRules();
             latestKind = NOTHING;
-            latestEnding = null;
-            latestCommands = NONE;
         }
 
         private boolean readLine() {
@@ -910,21 +940,10 @@ public final class RuleBuilder {
                 return isFirst;
             }
             if (latestKind == OF_ENDING) {
-                if (latestEnding != null) {
-                    latestEnding.commands = latestCommands;
-                }
+                rules.giveEndingCommands(latestEnding, latestCommands);
                 return true;
             }
-            for (int k = 0; k < store.count(); k++) {
-                Name name = store.at(k);
-                if (name.isLatestTarget && name.ownCommands != NONE) {
-                    return false;
-                }
-                if (name.isLatestTarget) {
-                    name.ownCommands = latestCommands;
-                }
-            }
-            return true;
+            return store.giveToLatestTargets(latestCommands);
         }
 
         private boolean readRuleLine(String text) {
@@ -1012,14 +1031,12 @@ public final class RuleBuilder {
         private boolean readEnding(String only) {
             int length = rules.fromLength(only);
             latestEnding = rules.renewEnding(only.substring(0, length), only.substring(length));
-            return latestEnding != null;
+            return latestEnding != NONE;
         }
 
         /** Gives rules to the first words, the targets, with the other ones as their prerequisites. */
         private boolean addRules(int targets) {
-            for (int k = 0; k < store.count(); k++) {
-                store.at(k).isLatestTarget = false;
-            }
+            store.forgetLatestTargets();
             if (rules.firstTarget == null) {
                 rules.firstTarget = words.name(0);
             }
@@ -1181,9 +1198,7 @@ public final class RuleBuilder {
             sawOutOfDate = false;
             doneCommands = 0;
             shell.print.clear();
-            for (int k = 0; k < store.count(); k++) {
-                store.at(k).fate = Name.UNTOUCHED;
-            }
+            store.forgetFates();
         }
 
         int answerOfSuccess() {
@@ -1268,8 +1283,8 @@ public final class RuleBuilder {
         private boolean findSource(Name name, int stem, String to) {
             for (int i = 0; i < rules.suffixCount; i++) {
                 String from = rules.suffixes[i].text;
-                Ending ending = rules.findEnding(from, to);
-                if (ending == null || ending.commands == NONE) {
+                int commands = rules.commandsOfEnding(from, to);
+                if (commands == NONE) {
                     continue;
                 }
                 candidate.clear();
@@ -1277,7 +1292,7 @@ public final class RuleBuilder {
                 candidate.addPart(from, 0, from.length());
                 Name source = store.find(candidate, 0, candidate.length());
                 if (source != null && (source.hasRule || source.isFile())) {
-                    name.commands = ending.commands;
+                    name.commands = commands;
                     name.source = source;
                     name.stem = stem;
                     return true;

@@ -80,6 +80,8 @@ public final class BuildTest {
         // A target that is no file is older than all files.
         probe.load("u: a b x\n\techo $?\nx:\n").build(0, 0).prints("echo a b x\na b x\n");
         probe.load("t: a b c\n\techo $?\n.PHONY: t\n").build(0, 0).prints("echo \n\n");
+        // One that is a file no more is not newer than what is no file either.
+        probe.load("v: a e\n\techo $?\ne:\n\t@rm a\n").build(0, 0).prints("echo e\ne\n").fates("v a e", "212");
         // Too many for an expansion.
         probe = new Probe().edit("12345678", 1);
         String thirteen = "A=12345678 12345678 12345678 12345678\nt: $A $A $A 12345678\n";
@@ -124,6 +126,8 @@ public final class BuildTest {
         probe.build(1, 2).fates("a b c x y", "33322");
         // The one under way fails as a prerequisite only; its own update goes on.
         probe.load("a: b x\n\techo a\nb: a\n\techo b\nx:\n\techo x\n").build(1, 2).prints("echo x\nx\n");
+        probe.load("a: b x\nb: a y\nx:\n\t@echo x\ny:\n\t@echo y\n").build(1, 2).prints("y\nx\n").done(2);
+        probe.load("a: b x\nb: c\nc: a y\nx:\n\t@echo x\ny:\n\t@echo y\n").build(1, 2).prints("y\nx\n").done(2);
         probe.build("b", 0, 2).fates("a b x", "330").build("x", 0, 0).fates("a b x", "002");
     }
 

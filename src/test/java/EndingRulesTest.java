@@ -69,6 +69,14 @@ public final class EndingRulesTest {
     }
 
     private static void whoHasNone() {
+        // A suffix is all of its characters.
+        Probe other = new Probe().edit("a.c", 1).load(".SUFFIXES: .c .o\n.c.o:\n\techo\n");
+        other.build("a_o", 0, 2).build("ao", 0, 2).build("a.p", 0, 2).build("o", 0, 2).build("a.o", 0, 0);
+        // A source of an earlier build is forgotten.
+        other.load("a.o:\n\techo <$<$*>\n").build(0, 0).prints("echo <>\n<>\n").fates("a.o a.c", "20");
+        other.load(".DEFAULT:\n\techo $<\n").build("x", 0, 0).prints("echo x\nx\n");
+        other.load("x:\n\techo <$<>\n").build("x", 0, 0).prints("echo <>\n<>\n");
+
         Probe probe = new Probe().edit("a.c", 1).load(".SUFFIXES: .c .o\n.c.o:\n\techo rule\na.o:\n\techo own <$<$*>\n");
         // Its own commands come first.
         probe.build(0, 0).prints("echo own <>\nown <>\n").fates("a.c", "0");

@@ -125,6 +125,11 @@ public final class ExpansionTest {
         expands(text + "C=$A$A\n", "$C" + "b".repeat(115) + "$C$A", "b".repeat(115));
         isWrong(text + "C=$A$A\n", "$C$A" + "b".repeat(116) + "$C");
         isWrong(text + "C=$D$A$D\n", "$C" + "b".repeat(116) + "$C");
+        isWrong(text + "C=$A$D\n", "$C" + "b".repeat(116) + "$C");
+        isWrong(text + "C=$A\nD=$A\n", "$C$D" + "b".repeat(116) + "$D");
+        // One that never is long is not, whatever was before it.
+        expands(text, "$A$C" + "b".repeat(120) + "$C", "b".repeat(120));
+        expands(text + "C=$D\n", "$A$C" + "b".repeat(120) + "$C$D", "b".repeat(120));
     }
 
     private static void inRuleLines() {

@@ -8,6 +8,7 @@ public final class LoadTest {
         specialTargets();
         endingTargets();
         forgetting();
+        forgettingOneByOne();
         draftIsEmptyThen();
         Probe.finish();
     }
@@ -139,6 +140,26 @@ public final class LoadTest {
         probe.load(bare).erase("p").build(0, 2).prints("echo set\nset\nfalse\n");
         // Prerequisites and rules go, too.
         probe.load("q: nix\n").load("r: q\n").edit("q", 1).build(0, 0).fates("q r nix", "120");
+    }
+
+    private static void forgettingOneByOne() {
+        Probe probe = new Probe().load(".IGNORE: a\n.SILENT: a\na:\n\tfalse\n").build(0, 0).prints("");
+        probe.load("a:\n\tfalse\n").build(0, 2).prints("false\n");
+        probe.load("A=1\nB=2\nZ=3\na:\n\techo $A$B$Z\n").build(2, 0).prints("echo 123\n");
+        probe.load("a:\n\techo <$A$B$Z>\n").build(2, 0).prints("echo <>\n");
+        String thirty = "a:\n" + "\t\n".repeat(30);
+        probe.load(thirty).load(thirty).load(thirty);
+        String eighty = "a b c d e f g h: 1 2 3 4 5 6 7 8 9 0\n";
+        new Probe().load(eighty).load(eighty);
+        String eight = ".SUFFIXES: .a .b .c .d .e .f\n.a:\n.b:\n.c:\n.d:\n.e:\n.f:\n.a.a:\n.a.b:\n";
+        new Probe().load(eight).load(eight.replace(".", ".x").replace(".xSUFF", ".SUFF"));
+        // No rule line is before the first line.
+        probe.load("a:\n\techo\n").load("\techo\n", -1).load("a:\n").load("\n\techo\n", -2);
+        // What stands before a wrong line is gone.
+        probe.load("a:\n\techo 1\ny\n", -3);
+        Probe.due("no rule before a wrong line", probe.builder.build(0), -1);
+        probe.build("a", 0, 2).load(".DEFAULT:\n\techo 1\ny\n", -3).build("z", 0, 2);
+        probe.edit("q.c", 1).load(".SUFFIXES: .c\n.c:\n\techo 1\ny\n", -4).build("q", 0, 2);
     }
 
     private static void draftIsEmptyThen() {

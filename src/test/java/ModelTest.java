@@ -12,8 +12,12 @@ public final class ModelTest {
 
     private long seed;
 
+    // In every second run hardly anything is wrong, and files are there, so that builds get far.
+    private final boolean tame;
+
     private ModelTest(long seed) {
         this.seed = seed * 2862933555777941757L + 3037000493L;
+        tame = seed % 2 == 0;
     }
 
     public static void main(String[] args) {
@@ -33,6 +37,11 @@ public final class ModelTest {
         return draw(100) < inHundred;
     }
 
+    /** Whether something wrong is drawn, seldom enough that a tame run may be free of it. */
+    private boolean fault(int inHundred) {
+        return draw(tame ? 2000 : 100) < inHundred;
+    }
+
     private String pick(String[] from) {
         return from[draw(from.length)];
     }
@@ -45,7 +54,7 @@ public final class ModelTest {
         for (int step = 0; step < steps; step++) {
             String got;
             String want;
-            int kind = step == 0 ? 0 : draw(12);
+            int kind = step == 0 ? 0 : tame && step < 4 ? 3 : draw(12);
             int number = chance(90) ? draw(64) : draw(80) - 10;
             if (chance(40)) {
                 number = 0;
@@ -103,7 +112,7 @@ public final class ModelTest {
     }
 
     private String name() {
-        return chance(98) ? pick(NAMES) : chance(50) ? pick(BAD_NAMES) : "n" + draw(60);
+        return !fault(2) ? pick(NAMES) : chance(50) ? pick(BAD_NAMES) : "n" + draw(60);
     }
 
     private String names(int most) {
@@ -111,7 +120,7 @@ public final class ModelTest {
         int count = draw(most + 1);
         for (int i = 0; i < count; i++) {
             all.append(i == 0 ? "" : chance(90) ? " " : "  ");
-            all.append(chance(12) ? pick(REFERENCES).replaceAll("\\$[@<?*]", "\\$A") : name());
+            all.append(chance(12) ? pick(REFERENCES).replaceAll("\\$[@<?*$]", "\\$A") : name());
         }
         return all.toString();
     }
@@ -121,7 +130,7 @@ public final class ModelTest {
         int count = draw(most + 1);
         for (int i = 0; i < count; i++) {
             all.append(i == 0 ? "" : chance(80) ? " " : chance(50) ? "" : "   ");
-            all.append(chance(30) ? pick(REFERENCES) : chance(2) ? pick(BAD_REFERENCES) : name());
+            all.append(chance(30) ? pick(REFERENCES) : fault(2) ? pick(BAD_REFERENCES) : name());
         }
         return all.toString();
     }
@@ -134,8 +143,8 @@ public final class ModelTest {
             case 2, 3, 4: rest = "touch " + (chance(70) ? "$@" : names(3)); break;
             case 5: rest = "rm " + names(2); break;
             case 6, 7: rest = chance(60) ? "cp $< $@" : "cp " + names(3); break;
-            case 8, 9: rest = "cat " + (chance(50) ? "$?" : names(3)) + (chance(95) ? " > " : " ") + (chance(80) ? "$@" : name()); break;
-            case 10: rest = "false " + name(); break;
+            case 8, 9: rest = "cat " + (chance(50) ? "$?" : names(3)) + (!fault(5) ? " > " : " ") + (chance(80) ? "$@" : name()); break;
+            case 10: rest = (chance(50) ? "false " : "true ") + name(); break;
             case 11: rest = "true " + value(3); break;
             default: rest = chance(30) ? "" : chance(50) ? "frob" : value(3); break;
         }
@@ -146,7 +155,7 @@ public final class ModelTest {
         StringBuilder all = new StringBuilder(".SUFFIXES:");
         int count = draw(5);
         for (int i = 0; i < count; i++) {
-            all.append(' ').append(chance(98) ? pick(SUFFIXES) : pick(BAD_SUFFIXES));
+            all.append(' ').append(!fault(2) ? pick(SUFFIXES) : pick(BAD_SUFFIXES));
         }
         return all.toString();
     }
@@ -155,12 +164,12 @@ public final class ModelTest {
         switch (draw(15)) {
             case 0: return suffixes();
             case 1: return pick(new String[] {".PHONY", ".IGNORE", ".SILENT"}) + ": " + names(2);
-            case 2: return chance(85) ? ".DEFAULT:" + (chance(97) ? "" : " a") : "";
+            case 2: return chance(85) ? ".DEFAULT:" + (!fault(3) ? "" : " a") : "";
             case 3, 4: return pick(SUFFIXES) + (chance(70) ? pick(SUFFIXES) : "") + ":" + (chance(90) ? "" : " a");
             case 5, 6: return letter() + "=" + value(3);
             case 7: return chance(80) ? "  # " + name() : " ";
-            default: return (chance(97) ? name() : "") + (chance(20) ? " " + names(2) : "") + (chance(98) ? ": " : " ")
-                    + names(4) + (chance(5) ? " # x" : "");
+            default: return (!fault(3) ? name() : "") + (chance(20) ? " " + names(2) : "") + (!fault(2) ? ": " : " ")
+                    + names(tame ? 2 : 4) + (chance(5) ? " # x" : "");
         }
     }
 
@@ -171,12 +180,12 @@ public final class ModelTest {
             String line = line();
             all.append(line).append('\n');
             boolean takes = line.contains(":") && !line.matches("\\.(SUFFIXES|PHONY|IGNORE|SILENT).*|.=.*");
-            int commands = takes && chance(60) ? 1 + draw(3) : chance(2) ? 1 : 0;
+            int commands = takes && chance(60) ? 1 + draw(3) : fault(2) ? 1 : 0;
             for (int j = 0; j < commands; j++) {
-                all.append(command()).append(chance(97) ? "\n" : "\\\n");
+                all.append(command()).append(!fault(3) ? "\n" : "\\\n");
             }
         }
-        if (chance(10)) {
+        if (fault(10)) {
             all.insert(draw(all.length()), pick(new String[] {"\\\n", ":", "$", "#", "\t", " ", "\n", "\\"}));
         }
         return all.toString();

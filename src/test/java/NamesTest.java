@@ -37,6 +37,10 @@ public final class NamesTest {
             probe.edit("n" + i, i);
         }
         Probe.due("the last name", probe.name(31), "n31");
+        Probe.due("time(32)", probe.builder.time(32), -1);
+        Probe.due("content(32)", probe.builder.content(32), 0);
+        Probe.due("fate(32)", probe.builder.fate(32), -1);
+        Probe.due("nameAt(32, 0)", probe.builder.nameAt(32, 0), -1);
         probe.type("n32");
         Probe.due("edit of the 33rd", probe.builder.edit(1), -1);
         Probe.due("build of the 33rd", probe.builder.build(0), -1);

@@ -19,6 +19,8 @@ public final class NewObjectTest {
         Probe.due("names still", builder.names(), 0);
 
         new Probe().load("x:\n\techo <$A>\n").build(0, 0).prints("echo <>\n<>\n").times("x", "0");
+        new Probe().build("x", 0, 2).fates("x", "3").prints("").done(0);
+        new Probe().edit("x", 1).build("x", 0, 0).fates("x", "1");
         onlyItsOwn();
         Probe.finish();
     }
