@@ -175,8 +175,8 @@ public final class RuleBuilder {
             return true;
         }
 
-        /** Appends what fits of another text from its place from up to to, and tells whether all of it did. */
-        boolean addPart(Text text, int from, int to) {
+        /** The same for another text of this kind. */
+        boolean addText(Text text, int from, int to) {
             for (int i = Math.max(from, 0); i < to && i < text.length; i++) {
                 if (length == chars.length) {
                     return false;
@@ -311,7 +311,7 @@ public final class RuleBuilder {
 
         void addTo(Text other, int i) {
             if (i >= 0 && i < count) {
-                other.addPart(text, begins[i], ends[i]);
+                other.addText(text, begins[i], ends[i]);
             }
         }
 
@@ -589,7 +589,10 @@ public final class RuleBuilder {
             if (!expandMacro(text.charAt(at + 2), level)) {
                 return WRONG;
             }
-            return !replaces || replaceEnds(start, text, behindLetter + 1, equals, close) ? close : WRONG;
+            if (replaces && !replaceEnds(start, text, behindLetter + 1, equals, close)) {
+                return WRONG;
+            }
+            return close;
         }
 
         /** The first place of c from a place on, or the length of the text. */
@@ -660,7 +663,7 @@ public final class RuleBuilder {
                 return out.addPart(target.spelling, 0, Name.LONGEST);
             }
             if (c == '?') {
-                return out.addPart(newer, 0, newer.length());
+                return out.addText(newer, 0, newer.length());
             }
             if (c == '<') {
                 return target.source == null || out.addPart(target.source.spelling, 0, Name.LONGEST);
@@ -964,7 +967,10 @@ public final class RuleBuilder {
             latestKind = kindOf(only);
             switch (latestKind) {
                 case WITHOUT_COMMANDS:
-                    return only.equals(".SUFFIXES") ? readSuffixes() : words.meet(store, 1, words.count()) && mark(only);
+                    if (only.equals(".SUFFIXES")) {
+                        return readSuffixes();
+                    }
+                    return words.meet(store, 1, words.count()) && mark(only);
                 case OF_DEFAULT:
                     return words.count() == 1;
                 case OF_ENDING:
@@ -1078,7 +1084,7 @@ public final class RuleBuilder {
         }
 
         void printLine(Text text) {
-            print.addPart(text, 0, text.length());
+            print.addText(text, 0, text.length());
             print.add('\n');
         }
 

@@ -1,4 +1,4 @@
-/** Runs of calls that are drawn by a fixed row of numbers, with the answers of the program beside those of the model. */
+/** Runs of calls that are drawn by a fixed row of numbers: the program answers what the model does. */
 public final class ModelTest {
     private static final String[] NAMES = {"a", "b", "c", "d", "a.o", "b.o", "a.c", "b.c", "a.h", "b.y", "a.c.o", "x",
         "y", "_9", "longname", ".c", ".o", ".c.o", "a.y", "q.h.y"};
@@ -143,7 +143,10 @@ public final class ModelTest {
             case 2, 3, 4: rest = "touch " + (chance(70) ? "$@" : names(3)); break;
             case 5: rest = "rm " + names(2); break;
             case 6, 7: rest = chance(60) ? "cp $< $@" : "cp " + names(3); break;
-            case 8, 9: rest = "cat " + (chance(50) ? "$?" : names(3)) + (!fault(5) ? " > " : " ") + (chance(80) ? "$@" : name()); break;
+            case 8, 9:
+                rest = "cat " + (chance(50) ? "$?" : names(3)) + (!fault(5) ? " > " : " ");
+                rest += chance(80) ? "$@" : name();
+                break;
             case 10: rest = (chance(50) ? "false " : "true ") + name(); break;
             case 11: rest = "true " + value(3); break;
             default: rest = chance(30) ? "" : chance(50) ? "frob" : value(3); break;
