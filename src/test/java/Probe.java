@@ -2,14 +2,20 @@
 final class Probe {
     private static int wrong = 0;
     private static int asked = 0;
+    private static String about = "";
 
     final RuleBuilder builder = new RuleBuilder();
+
+    /** What is told before each answer that is not due, from now on. */
+    static void about(String words) {
+        about = words;
+    }
 
     static void due(String what, Object got, Object want) {
         asked++;
         if (!got.equals(want)) {
             wrong++;
-            System.out.println(what + " answered <" + got + ">, due is <" + want + ">");
+            System.out.println(about + what + " answered <" + got + ">, due is <" + want + ">");
         }
     }
 
