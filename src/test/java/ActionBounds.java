@@ -39,12 +39,14 @@ final class ActionBounds {
 
     private static void otherWords() {
         Sentence.of(8, "they FAIL when it is another one, when the words behind it are not as said,");
-        String[] others = {"frob", "tru", "truee", "True", "ech", "echo1", "touc", "touche", "r", "rmm", "c", "cpp", "ca", "catt",
+        String[] others = {"frob", "tru", "truee", "True", "ech", "echo1", "touc", "touche", "r", "rmm", "c", "cpp",
+                "ca", "catt",
             "t", ">", "a", "touch\ta", "$$", "echo,"};
         for (String other : others) {
             fails(new Run().edit("a", 1).edit("b", 1), other + " a b").names("a b t").prints("").times("a b", "1 2");
         }
-        String[] bare = {"touch", "rm", "cp", "cp a", "cp a b c", "cp x", "cat", "cat a", "cat a b", "cat > b", "cat a >", "cat >",
+        String[] bare = {"touch", "rm", "cp", "cp a", "cp a b c", "cp x", "cat", "cat a", "cat a b", "cat > b",
+                "cat a >", "cat >",
             "cat a b c", "cat a b >", "cat a > b c", "cat a >b", "cat a> b", "cat a >> b", "cat x y z"};
         for (String command : bare) {
             fails(new Run().edit("a", 1).edit("b", 1), command).names("a b t").prints("").times("a b", "1 2");
@@ -68,7 +70,8 @@ final class ActionBounds {
     private static void mostNames() {
         Sentence.of(8, "or would be the 33rd that is met");
         // The 31 names a .. z and 0 .. 4 are met, t among them; it is no file.
-        Run run = does(TermsBounds.thirtyOne().erase("t"), "touch last").asks("names", RuleBuilder::names, 32).times("last", "32");
+        Run run = does(TermsBounds.thirtyOne().erase("t"), "touch last").asks("names", RuleBuilder::names, 32)
+                .times("last", "32");
         fails(run, "touch a more").times("a", "1");
         fails(run, "rm a more").times("a", "1");
         fails(run, "cp a more").asks("names", RuleBuilder::names, 32);
@@ -79,15 +82,18 @@ final class ActionBounds {
         // The last one that there is room for is met before the one too many.
         run = fails(TermsBounds.thirtyOne().erase("t"), "cat a m1 > m2").asks("names", RuleBuilder::names, 32);
         run.asks("nameAt(31, 1)", b -> b.nameAt(31, 1), '1');
-        run = fails(TermsBounds.thirtyOne().erase("t"), "touch m1 a m2").times("m1 a", "0 1").asks("names", RuleBuilder::names, 32);
+        run = fails(TermsBounds.thirtyOne().erase("t"), "touch m1 a m2").times("m1 a", "0 1")
+                .asks("names", RuleBuilder::names, 32);
         fails(TermsBounds.thirtyOne().erase("t"), "rm m1 m2 a").times("a", "1").asks("names", RuleBuilder::names, 32);
         // Words that are no names are not met.
-        run = does(TermsBounds.thirtyOne().erase("t").edit("last", 1), "echo more than that").prints("more than that\n");
+        run = does(TermsBounds.thirtyOne().erase("t").edit("last", 1), "echo more than that")
+                .prints("more than that\n");
         does(run, "true more");
     }
 
     private static void namesOfCommandsThatFail() {
-        Sentence.of(8, "(if their number and the > are right, the names are met in the order of the words, before anything is done):");
+        Sentence.of(8, "(if their number and the > are right, the names are met in the order of the words, before "
+                + "anything is done):");
         fails(new Run(), "cp a b").names("t a b").times("a b", "0 0");
         fails(new Run(), "cat a b > c").names("t a b c").times("c", "0");
         does(new Run(), "touch c a b").names("t c a b").times("c a b", "1 2 3");
@@ -142,7 +148,8 @@ final class ActionBounds {
         Sentence.of(8, "rm and one or more names: they are files no more.");
         fails(new Run(), "rm").names("t");
         does(new Run().edit("a", 7).edit("b", 8), "rm a").times("a b", "0 2").contents("a b", "0 8");
-        does(new Run().edit("a", 7).edit("b", 8), "rm a b c a").times("a b c", "0 0 0").contents("a b", "0 0").names("a b t c");
+        does(new Run().edit("a", 7).edit("b", 8), "rm a b c a").times("a b c", "0 0 0").contents("a b", "0 0")
+                .names("a b t c");
         // The time of the next file is what it would have been.
         does(new Run().edit("a", 7), "rm a").edit("a", 1).times("a", "2");
     }
@@ -178,8 +185,8 @@ final class ActionBounds {
     }
 
     private static void sums() {
-        Sentence.of(8, "with c being 0 at first and 31 * c + content + 1 for each of them, in ints that wrap, the last one is "
-                + "written with the content c (of the contents before that, if it is one of them).");
+        Sentence.of(8, "with c being 0 at first and 31 * c + content + 1 for each of them, in ints that wrap, the "
+                + "last one is written with the content c (of the contents before that, if it is one of them).");
         does(new Run().edit("a", Integer.MAX_VALUE), "cat a > b").contents("b", "-2147483648");
         does(new Run().edit("a", Integer.MAX_VALUE - 1), "cat a > b").contents("b", "2147483647");
         does(new Run().edit("a", Integer.MIN_VALUE), "cat a > b").contents("b", "-2147483647");
@@ -189,7 +196,8 @@ final class ActionBounds {
         does(new Run().edit("a", 69273666).edit("z", -1), "cat a z > b").contents("b", "-2147483619");
         does(new Run().edit("a", Integer.MAX_VALUE).edit("z", -1), "cat a z > b").contents("b", "-2147483648");
         // The last one is one of the first.
-        does(new Run().edit("a", 7).edit("b", 1), "cat a b a > a").times("a b", "3 2").contents("a", "" + (31 * (31 * 8 + 2) + 8));
+        does(new Run().edit("a", 7).edit("b", 1), "cat a b a > a").times("a b", "3 2")
+                .contents("a", "" + (31 * (31 * 8 + 2) + 8));
         does(new Run().edit("a", 7), "cat a > a").times("a", "2").contents("a", "8");
     }
 }

@@ -15,7 +15,8 @@ final class DraftBounds {
     private static void newObject() {
         Sentence.of(1, "An empty draft, no names, files, macros and rules.");
         Run run = new Run().draftIsEmpty().buildRefused(0).buildRefused(63).names("").done(0).prints("");
-        run.nameAtRefused(0, 0).timeRefused(0).fateRefused(0).printedAtRefused(0).asks("content(0)", b -> b.content(0), 0);
+        run.nameAtRefused(0, 0).timeRefused(0).fateRefused(0).printedAtRefused(0)
+                .asks("content(0)", b -> b.content(0), 0);
         // The empty draft is an empty rule text.
         new Run().load("").buildRefused(0).names("");
         for (char c = 'A'; c <= 'Z'; c++) {
@@ -23,7 +24,8 @@ final class DraftBounds {
         }
         new Run().build("t", 0, 2).fates("t", "3").type("t").eraseRefused();
         // No suffixes, nothing silent or ignored, no default: each would show here.
-        new Run().load(".c.o:\n\ttrue\nt:\n\tfalse\n").names(".c.o t").build("t", 0, 2).prints("false\n").build("x", 0, 2);
+        new Run().load(".c.o:\n\ttrue\nt:\n\tfalse\n").names(".c.o t").build("t", 0, 2).prints("false\n")
+                .build("x", 0, 2);
         // The clock is 0.
         new Run().edit("a", 1).times("a", "1");
     }
@@ -36,7 +38,8 @@ final class DraftBounds {
             new Run().type("a:").typeRefused(code).load("b\n").names("a b");
         }
         for (int code : new int[] {32, 33, 125, 126, 9}) {
-            new Run().set("A=<" + (char) code + ">").load("t:\n\t$A\n").build("", 2, 0).prints("<" + (char) code + ">\n");
+            new Run().set("A=<" + (char) code + ">").load("t:\n\t$A\n").build("", 2, 0)
+                    .prints("<" + (char) code + ">\n");
         }
         new Run().type("a:").type("\n").load("b", -2).names("a");
     }
@@ -47,7 +50,8 @@ final class DraftBounds {
         // 319 characters are there: one more, and then none.
         run.type(":").typeRefused(':').typeRefused('\n').typeRefused(0).typeRefused(65535);
         run.load("").names("a").build("", 0, 0).fates("a", "2");
-        run = new Run().type("#".repeat(320)).typeRefused('a').editRefused(1).setRefused().eraseRefused().buildRefused(0);
+        run = new Run().type("#".repeat(320)).typeRefused('a').editRefused(1).setRefused().eraseRefused()
+                .buildRefused(0);
         // It stays full behind calls that are refused, and is empty behind one that takes it.
         run.typeRefused('a').scrap().type("ab").edit("", 1, "ab");
         new Run().type("\n".repeat(319)).type("x").typeRefused('y').load("", -320);
@@ -66,9 +70,10 @@ final class DraftBounds {
     }
 
     private static void set() {
-        Sentence.of(4, "The draft, a capital letter, = and a value of at most 16 characters without newlines (as it stands, with "
-                + "its spaces), sets this macro; then it is empty.");
-        String[] values = {"", "x", " ", "  x  ", "\t", "123456789012345", "1234567890123456", " 23456789012345 ", "=", "a#b",
+        Sentence.of(4, "The draft, a capital letter, = and a value of at most 16 characters without newlines (as "
+                + "it stands, with its spaces), sets this macro; then it is empty.");
+        String[] values = {"", "x", " ", "  x  ", "\t", "123456789012345", "1234567890123456", " 23456789012345 ", "=",
+                "a#b",
             "\\", "a:b", "~"};
         for (String value : values) {
             for (String letter : new String[] {"A", "M", "Z"}) {
@@ -78,8 +83,10 @@ final class DraftBounds {
         }
         new Run().set("A=1").draftIsEmpty().set("A=").draftIsEmpty().names("");
         // Another one takes its place, an empty one, too; the others stay.
-        Run run = new Run().set("A=1").set("B=2").set("A=3").load("A=4\nt:\n\t<$A$B>\n").build("", 2, 0).prints("<32>\n");
-        run.set("A=").build("", 2, 0).prints("<2>\n").set("B=1234567890123456").build("", 2, 0).prints("<1234567890123456>\n");
+        Run run = new Run().set("A=1").set("B=2").set("A=3").load("A=4\nt:\n\t<$A$B>\n").build("", 2, 0)
+                .prints("<32>\n");
+        run.set("A=").build("", 2, 0).prints("<2>\n").set("B=1234567890123456").build("", 2, 0)
+                .prints("<1234567890123456>\n");
         for (char c = 'A'; c <= 'Z'; c++) {
             new Run().set(c + "=v").load("t:\n\t$" + c + "\n").build("", 2, 0).prints("v\n");
         }
@@ -87,7 +94,8 @@ final class DraftBounds {
 
     private static void setRefused() {
         Sentence.of(4, "False when the draft is not so.");
-        String[] drafts = {"", "A", "=", "=x", "A x", "A:x", "A =x", "a=x", "z=x", "@=x", "[=x", "0=x", ".=x", "AB=x", " A=x", "\tA=x",
+        String[] drafts = {"", "A", "=", "=x", "A x", "A:x", "A =x", "a=x", "z=x", "@=x", "[=x", "0=x", ".=x", "AB=x",
+                " A=x", "\tA=x",
             "\nA=x", "A\n=x", "A=\n", "A=x\n", "A=\nx", "A=x\ny", "A=12345678901234567", "A=" + " ".repeat(17),
             "A=1234567890123456\n", "A=" + "x".repeat(318)};
         for (String draft : drafts) {
@@ -97,6 +105,7 @@ final class DraftBounds {
         // The draft is there still, and can be made longer or be used by another call.
         new Run().type("A").setRefused().type("=").set("").draftIsEmpty();
         new Run().type("ab").setRefused().edit("", 3, "ab").names("ab");
-        new Run().type("A=12345678901234567").setRefused().load("\nt:\n\t$A\n").build("", 2, 0).prints("12345678901234567\n");
+        new Run().type("A=12345678901234567").setRefused().load("\nt:\n\t$A\n").build("", 2, 0)
+                .prints("12345678901234567\n");
     }
 }

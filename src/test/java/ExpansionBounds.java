@@ -34,8 +34,8 @@ final class ExpansionBounds {
     }
 
     private static void macros() {
-        Sentence.of(5, "EXPANDING a text: from left to right, $X and $(X), X being a capital letter, stand for the value "
-                + "of the macro X (empty, if it has none), expanded;");
+        Sentence.of(5, "EXPANDING a text: from left to right, $X and $(X), X being a capital letter, stand for the "
+                + "value of the macro X (empty, if it has none), expanded;");
         for (char c = 'A'; c <= 'Z'; c++) {
             becomes(c + "=v\n", "$" + c + "$(" + c + ")", "vv");
             becomes("", "<$" + c + "$(" + c + ")>", "<>");
@@ -54,8 +54,8 @@ final class ExpansionBounds {
     }
 
     private static void ends() {
-        Sentence.of(5, "$(X:s=t), s and t being any texts without ) and s without =, for the value of X, expanded, in "
-                + "which in every word that ends with s this end becomes t");
+        Sentence.of(5, "$(X:s=t), s and t being any texts without ) and s without =, for the value of X, expanded, "
+                + "in which in every word that ends with s this end becomes t");
         becomes("A=a.c b.c.c c.d .c c\n", "$(A:.c=.o)", "a.o b.c.o c.d .o c");
         // Nothing, all of a word, and more than a word.
         becomes("A=a bb\n", "$(A:=x)", "ax bbx");
@@ -94,8 +94,8 @@ final class ExpansionBounds {
     }
 
     private static void dollarsAndNames() {
-        Sentence.of(5, "$$ for $; and, in a command (in the values of macros that stand in it, too), $@, $<, $? and $* "
-                + "for what is said below.");
+        Sentence.of(5, "$$ for $; and, in a command (in the values of macros that stand in it, too), $@, $<, $? "
+                + "and $* for what is said below.");
         becomes("A=x\n", "$$A$$$$$$$A$$", "$A$$$x$");
         isWrong("", "$$$");
         becomes("", "$@$<$?$*$@", "tt");
@@ -105,7 +105,8 @@ final class ExpansionBounds {
     private static void notInRuleLines() {
         Sentence.of(5, "in a command (in the values of macros that stand in it, too)");
         for (String one : new String[] {"$@", "$<", "$?", "$*"}) {
-            new Run().load("a: " + one + "\n", -1).load("A=" + one + "\na: $A\n", -2).load("A=" + one + "\na: b\n").names("a b");
+            new Run().load("a: " + one + "\n", -1).load("A=" + one + "\na: $A\n", -2).load("A=" + one + "\na: b\n")
+                    .names("a b");
             new Run().load("a: $" + one + "\n", -1).names("a").load("a" + one + ":\n", -1).names("a");
         }
     }
@@ -128,8 +129,8 @@ final class ExpansionBounds {
     }
 
     private static void levels() {
-        Sentence.of(5, "The text itself has the level 0, the value of a macro one more than the text in which the macro "
-                + "stands: a macro in a text of the level 6 is wrong.");
+        Sentence.of(5, "The text itself has the level 0, the value of a macro one more than the text in which the "
+                + "macro stands: a macro in a text of the level 6 is wrong.");
         String chain = "A=$B\nB=$C\nC=$D\nD=$(E)\nE=$(F:x=y)\n";
         becomes(chain + "F=x\n", "$A", "y");
         becomes(chain + "F=$$@\n", "$A", "$@");
@@ -193,12 +194,14 @@ final class ExpansionBounds {
     private static void valuesThatWereSet() {
         Sentence.of(5, "A macro has the value that set() gave it, if there is one, else that of the definitions");
         Run run = new Run().load("A=d\nB=e\nt:\n\t<$A$B$C>\n").build("", 2, 0).prints("<de>\n").set("A=s");
-        run.build("", 2, 0).prints("<se>\n").set("B=").build("", 2, 0).prints("<s>\n").set("C=c").build("", 2, 0).prints("<sc>\n");
+        run.build("", 2, 0).prints("<se>\n").set("B=").build("", 2, 0).prints("<s>\n").set("C=c").build("", 2, 0)
+                .prints("<sc>\n");
         // A set value, even the empty one, goes before definitions that come later.
         run.load("A=1\nB=2\nC=3\nD=4\nt:\n\t<$A$B$C$D>\n").build("", 2, 0).prints("<sc4>\n").set("A=").set("D=5");
         run.build("", 2, 0).prints("<c5>\n").load("t: $A$B$C.$D\n").names("t c.5");
         // What it gave is expanded in its turn.
-        run.set("A=$D$$").load("t:\n\t$A\n").build("", 2, 0).prints("5$\n").set("A=$A").build("", 2, 2).set("A=$(").build("", 2, 2);
+        run.set("A=$D$$").load("t:\n\t$A\n").build("", 2, 0).prints("5$\n").set("A=$A").build("", 2, 2).set("A=$(")
+                .build("", 2, 2);
     }
 
     private static void timeOfExpansion() {

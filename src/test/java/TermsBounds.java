@@ -18,7 +18,8 @@ final class TermsBounds {
     }
 
     private static void lengthsOfNames() {
-        Sentence.of(6, "A NAME is a text of 1 to 8 characters, each a small letter, a figure, a point or the line _.");
+        Sentence.of(6, "A NAME is a text of 1 to 8 characters, each a small letter, a figure, a point or the line "
+                + "_.");
         new Run().noName("");
         new Run().edit("a", 1).edit("ab", 1).edit("abcdefg", 1).edit("abcdefgh", 1).names("a ab abcdefg abcdefgh");
         new Run().noName("abcdefghi").noName("a".repeat(9)).noName("a".repeat(20));
@@ -27,7 +28,8 @@ final class TermsBounds {
         new Run().load("abcdefghi:\n", -1).names("").load("a: abcdefghi\n", -1).names("a");
         new Run().load("t:\n\ttouch abcdefgh\n\ttouch abcdefghi\n").build("", 0, 2).names("t abcdefgh").done(2);
         // Two that differ in the last character, or in the length, are two.
-        new Run().edit("abcdefgh", 1).edit("abcdefgi", 2).edit("abcdefg", 3).contents("abcdefgh abcdefgi abcdefg", "1 2 3");
+        new Run().edit("abcdefgh", 1).edit("abcdefgi", 2).edit("abcdefg", 3)
+                .contents("abcdefgh abcdefgi abcdefg", "1 2 3");
     }
 
     private static void charactersOfNames() {
@@ -77,7 +79,8 @@ final class TermsBounds {
         full.asks("names", RuleBuilder::names, 32);
         // To erase a file, or to forget the rules, makes no room for names.
         full.erase("last").load("").type("more").editRefused(1).scrap();
-        thirtyOne().build("last", 0, 2).asks("names", RuleBuilder::names, 32).type("more").buildRefused(0).editRefused(0);
+        thirtyOne().build("last", 0, 2).asks("names", RuleBuilder::names, 32).type("more").buildRefused(0)
+                .editRefused(0);
         thirtyOne().load("a: last b\n").type("more").buildRefused(63).editRefused(0);
         thirtyOne().load("a: last more b\n", -1).asks("names", RuleBuilder::names, 32).type("more").editRefused(0);
     }
@@ -86,13 +89,15 @@ final class TermsBounds {
         Sentence.of(12, "A name may be a FILE, with a TIME and a CONTENT (an int).");
         Run run = new Run().edit("a", Integer.MAX_VALUE).edit("b", Integer.MIN_VALUE).edit("c", 0).edit("d", -1);
         run.build("e", 0, 2);
-        run.contents("a b c d e", Integer.MAX_VALUE + " " + Integer.MIN_VALUE + " 0 -1 0").times("a b c d e", "1 2 3 4 0");
+        run.contents("a b c d e", Integer.MAX_VALUE + " " + Integer.MIN_VALUE + " 0 -1 0")
+                .times("a b c d e", "1 2 3 4 0");
         // A file with the content 0 is a file; what is none is none.
         run.type("e").eraseRefused().scrap().erase("c").times("c", "0").type("c").eraseRefused();
     }
 
     private static void clock() {
-        Sentence.of(11, "The CLOCK is 0 at first; WRITING a file makes the clock grow by 1, and its time is the clock then.");
+        Sentence.of(11, "The CLOCK is 0 at first; WRITING a file makes the clock grow by 1, and its time is the "
+                + "clock then.");
         Run run = new Run().load("t:\n\ttouch a b a\n\tcp a c\n\tcat a b > d\n").build("", 0, 0);
         run.times("a b c d t", "3 2 4 5 0").build("", 4, 0).times("t", "6").edit("e", 1).times("e", "7");
         run.edit("e", 1).times("e", "8").edit("a", 1).times("a e", "9 8");
@@ -107,7 +112,8 @@ final class TermsBounds {
     }
 
     private static void draft() {
-        Sentence.of(2, "THE DRAFT is a text of at most 320 characters, each of the codes 32 .. 126, a tab or a newline.");
+        Sentence.of(2, "THE DRAFT is a text of at most 320 characters, each of the codes 32 .. 126, a tab or a "
+                + "newline.");
         for (int code = 0; code <= 65535; code++) {
             boolean fits = (code >= 32 && code <= 126) || code == 9 || code == 10;
             Probe.due("type " + code, new RuleBuilder().type((char) code), fits);
@@ -144,7 +150,8 @@ final class TermsBounds {
         run.load(".SUFFIXES: .c .o\n.PHONY: t\nM=m\nt: s.o n\n\techo $A $M\n.c.o:\n\tcp $< $@\n.DEFAULT:\n\tfalse\n");
         run.build("", 0, 2).prints("cp s.c s.o\nfalse\n").done(2).fates("t s.o s.c n", "3 2 1 3");
         run.typeRefused(127).setRefused().editRefused(3).eraseRefused().buildRefused(-1).buildRefused(64);
-        run.nameAtRefused(-1, 0).nameAtRefused(5, 0).nameAtRefused(0, 3).timeRefused(5).fateRefused(5).printedAtRefused(17);
+        run.nameAtRefused(-1, 0).nameAtRefused(5, 0).nameAtRefused(0, 3).timeRefused(5).fateRefused(5)
+                .printedAtRefused(17);
         run.type("A=").typeRefused(31).editRefused(3).eraseRefused().buildRefused(0).buildRefused(64);
         run.nameAtRefused(0, -1).timeRefused(-1).fateRefused(-1).printedAtRefused(-1).type("-").set("");
         run.build("", 16, 0).prints("false\necho - m\n- m\n").done(2);
@@ -154,7 +161,8 @@ final class TermsBounds {
     }
 
     private static void mostCalls() {
-        Sentence.of(8, "An object is used for at most 512 calls after it has been made; what later calls answer is free.");
+        Sentence.of(8, "An object is used for at most 512 calls after it has been made; what later calls answer is "
+                + "free.");
         RuleBuilder builder = new RuleBuilder();
         String text = "t: u\n\techo $@ $?\n\tcp u t\nu:\n\techo " + "u".repeat(15) + "\n\ttouch u\n";
         String print = "echo " + "u".repeat(15) + "\n" + "u".repeat(15) + "\ntouch u\necho t u\nt u\ncp u t\n";

@@ -50,8 +50,8 @@ final class TextBounds {
     }
 
     private static void numbersOfLines() {
-        Sentence.of(5, "What newlines separate then are LINES, each numbered by how many newlines of the draft (those "
-                + "behind backslashes, too) are before it, + 1.");
+        Sentence.of(5, "What newlines separate then are LINES, each numbered by how many newlines of the draft "
+                + "(those behind backslashes, too) are before it, + 1.");
         new Run().load("x", -1).load("x\n", -1).load("\nx", -2).load("\nx\n\n", -2);
         new Run().load("\n".repeat(319) + "x", -320);
         new Run().load("\n".repeat(318) + "x\n", -319);
@@ -64,8 +64,8 @@ final class TextBounds {
     }
 
     private static void commandLinesAndComments() {
-        Sentence.of(5, "A line that begins with a tab is a COMMAND LINE; of any other one, a # and all behind it is cut "
-                + "off, and then all spaces at both ends.");
+        Sentence.of(5, "A line that begins with a tab is a COMMAND LINE; of any other one, a # and all behind it "
+                + "is cut off, and then all spaces at both ends.");
         new Run().load("a:\n\t\n\t").build("", 0, 0).done(2).prints("\n\n");
         new Run().load("a:\n \techo\n", -2).load("a:\n \techo:\n", -2).load("\t", -1).load(" \t", -1);
         prints("a:\n\t#\n\techo # x #\n", "#\necho # x #\n");
@@ -88,13 +88,14 @@ final class TextBounds {
     }
 
     private static void definitions() {
-        Sentence.of(5, "If it begins with a capital letter and = behind it, it DEFINES the MACRO of that letter: its "
-                + "value is what is behind =, without spaces at both ends; a later definition takes the place of an "
-                + "earlier one.");
+        Sentence.of(5, "If it begins with a capital letter and = behind it, it DEFINES the MACRO of that letter: "
+                + "its value is what is behind =, without spaces at both ends; a later definition takes the place "
+                + "of an earlier one.");
         for (char c = 'A'; c <= 'Z'; c++) {
             prints(c + "=v\na:\n\techo $" + c + "\n", "echo v\n");
         }
-        for (String line : new String[] {"@=v", "[=v", "a=v", "z=v", "0=v", "=v", "A", "A =v", "AB=v", "A-=v", "A.=v"}) {
+        for (String line : new String[] {"@=v", "[=v", "a=v", "z=v", "0=v", "=v", "A", "A =v", "AB=v", "A-=v",
+                "A.=v"}) {
             new Run().load(line + "\n", -1).names("");
         }
         // Whatever is behind =, also a colon, it is a definition.
@@ -112,8 +113,8 @@ final class TextBounds {
     }
 
     private static void colonsAndTargets() {
-        Sentence.of(5, "Any other line is a RULE LINE: EXPANDED, it has exactly one colon; the words before it are its "
-                + "TARGETS, one or more, the words behind it its PREREQUISITES.");
+        Sentence.of(5, "Any other line is a RULE LINE: EXPANDED, it has exactly one colon; the words before it are "
+                + "its TARGETS, one or more, the words behind it its PREREQUISITES.");
         new Run().load("a", -1).load("a b", -1).load("a::", -1).load("a: b:", -1).load("a:b:c:d", -1).names("");
         new Run().load(":", -1).load(": a", -1).load("  :  ", -1).load("::", -1).names("");
         new Run().load("a:").load("b:c").load("d e f:").load("g h: i j k\n").names("a b c d e f g h i j k");
@@ -124,8 +125,8 @@ final class TextBounds {
     }
 
     private static void commandsOfRuleLines() {
-        Sentence.of(5, "The command lines behind a rule line (also when empty lines or definitions are between) are its "
-                + "COMMANDS, the text behind the tab.");
+        Sentence.of(5, "The command lines behind a rule line (also when empty lines or definitions are between) "
+                + "are its COMMANDS, the text behind the tab.");
         new Run().load("a:\nb:\n\techo b\n").build("a", 2, 0).prints("").build("b", 2, 0).prints("echo b\n");
         new Run().load("a:\n\techo a\nb:\n").build("a", 2, 0).prints("echo a\n").build("b", 2, 0).prints("");
         prints("a: b\nb:\na:\nA=1\n\n\techo 1\nB=2\n \n#\n\techo $A$B\n", "echo 1\necho 12\n");
@@ -136,8 +137,8 @@ final class TextBounds {
     }
 
     private static void suffixes() {
-        Sentence.of(5, "A rule line whose only target is .SUFFIXES appends its prerequisites to the SUFFIXES, those that "
-                + "are there left out, or, if it has none, empties them.");
+        Sentence.of(5, "A rule line whose only target is .SUFFIXES appends its prerequisites to the SUFFIXES, "
+                + "those that are there left out, or, if it has none, empties them.");
         String six = ".SUFFIXES: .a .b .c .d .e .f\n";
         new Run().load(six).names("").load(six + six + ".SUFFIXES: .f .a\n").names("").buildRefused(0);
         new Run().load(".SUFFIXES: .a .a .b .a .c .d .e .f .b .f\n").names("").buildRefused(0);
@@ -151,13 +152,14 @@ final class TextBounds {
         // Once they are empty, no ending is one.
         run.load(".SUFFIXES: .a .b\n" + rules + ".SUFFIXES:\n").build("x", 2, 2).prints("");
         // With another target, or in another case, it is nothing special.
-        new Run().load(".SUFFIXES a: .b\n", -1).load("a .SUFFIXES: .b\n", -1).load(".SUFFIXES .SUFFIXES:\n", -1).names("a");
+        new Run().load(".SUFFIXES a: .b\n", -1).load("a .SUFFIXES: .b\n", -1).load(".SUFFIXES .SUFFIXES:\n", -1)
+                .names("a");
         new Run().load(".suffixe: .b\n").names(".suffixe .b").load(".SUFFIXE: .b\n", -1).load("SUFFIXES: .b\n", -1);
     }
 
     private static void specialTargets() {
-        Sentence.of(5, ".PHONY, .IGNORE, .SILENT as the only target make the prerequisites (names, which are met) PHONY, "
-                + "IGNORED or SILENT;");
+        Sentence.of(5, ".PHONY, .IGNORE, .SILENT as the only target make the prerequisites (names, which are met) "
+                + "PHONY, IGNORED or SILENT;");
         Run run = new Run().edit("a", 1).edit("b", 1).edit("c", 1);
         run.load(".PHONY: a\n.PHONY: b d\n.PHONY:\na b c:\n").names("a b c d");
         run.build("a", 0, 0).fates("a", "2").build("b", 0, 0).fates("b", "2").build("c", 0, 0).fates("c", "1");
@@ -165,10 +167,13 @@ final class TextBounds {
         run = new Run().load(".SILENT: a b\na b c:\n\ttrue\n").build("a", 0, 0).prints("").build("b", 0, 0).prints("");
         run.build("c", 0, 0).prints("true\n");
         for (String special : new String[] {".PHONY", ".IGNORE", ".SILENT"}) {
-            new Run().load(special + ":").load(special + ": a a\n").names("a").load(special + ": b C d\n", -1).names("a b");
-            new Run().load(special + ": 123456789\n", -1).load(special + " x: a\n", -1).load("x " + special + ":\n", -1);
+            new Run().load(special + ":").load(special + ": a a\n").names("a").load(special + ": b C d\n", -1)
+                    .names("a b");
+            new Run().load(special + ": 123456789\n", -1).load(special + " x: a\n", -1)
+                    .load("x " + special + ":\n", -1);
             new Run().load(special + " " + special + ":\n", -1).load("a: " + special + "\n", -1).names("a");
-            new Run().load(special + "A: a\n", -1).load(special.toLowerCase() + ": a\n").names(special.toLowerCase() + " a");
+            new Run().load(special + "A: a\n", -1).load(special.toLowerCase() + ": a\n")
+                    .names(special.toLowerCase() + " a");
             // Such a line gives a rule neither to its target nor to the names behind it.
             new Run().load(special + ": a\n").buildRefused(0).build("a", 0, 2).fates("a", "3");
         }
@@ -176,7 +181,8 @@ final class TextBounds {
 
     private static void allNames() {
         Sentence.of(5, ".IGNORE and .SILENT without any make all names so.");
-        Run run = new Run().edit("old", 1).load(".IGNORE:\na: b\n\tfalse\nb:\n\tfalse\n").build("", 0, 0).fates("a b", "2 2");
+        Run run = new Run().edit("old", 1).load(".IGNORE:\na: b\n\tfalse\nb:\n\tfalse\n").build("", 0, 0)
+                .fates("a b", "2 2");
         run.load("a:\n\tfalse\n").build("", 0, 2).load("a:\n\tfalse\n.IGNORE:\n").build("", 0, 0);
         run = new Run().load(".SILENT:\na: b\n\ttrue\nb:\n\ttrue\n.DEFAULT:\n\ttouch $@\n").build("", 0, 0).prints("");
         // Also those that are met later, and with names that have it of their own.
@@ -189,8 +195,10 @@ final class TextBounds {
     private static void defaultCommands() {
         Sentence.of(5, ".DEFAULT as the only target, without prerequisites, gets the DEFAULT commands.");
         new Run().load(".DEFAULT:\n").buildRefused(0).build("x", 0, 2).load(".DEFAULT:\n\t\n").build("x", 0, 0).done(1);
-        new Run().load(".DEFAULT:\n\techo 1\n\techo 2\n.DEFAULT:\n").build("x", 2, 0).prints("echo 1\necho 2\n").names("x");
-        new Run().load(".DEFAULT: x\n", -1).load(".DEFAULT:x\n", -1).names("").load(".DEFAULT: # x\n\techo\n").names("");
+        new Run().load(".DEFAULT:\n\techo 1\n\techo 2\n.DEFAULT:\n").build("x", 2, 0).prints("echo 1\necho 2\n")
+                .names("x");
+        new Run().load(".DEFAULT: x\n", -1).load(".DEFAULT:x\n", -1).names("").load(".DEFAULT: # x\n\techo\n")
+                .names("");
         new Run().load(".DEFAULT a:\n", -1).load("a .DEFAULT:\n", -1).load("a: .DEFAULT\n", -1).names("a");
     }
 
@@ -199,9 +207,9 @@ final class TextBounds {
         Run run = new Run().edit("x.a", 1).load(".SUFFIXES: .a\n.a:\n\techo $<\n").names("x.a").buildRefused(0);
         run.build("x", 2, 0).prints("echo x.a\n");
         // The shortest and the longest suffix.
-        run = new Run().edit("x..", 1).edit("y.abcdef", 1).load(".SUFFIXES: .. .abcdef .abcdefg\n..:\n\techo 1\n.abcdef:\n"
-                + "\techo 2\n.abcdefg:\n").names("x.. y.abcdef").build("x", 2, 0).prints("echo 1\n");
-        run.build("y", 2, 0).prints("echo 2\n");
+        run = new Run().edit("x..", 1).edit("y.abcdef", 1);
+        run.load(".SUFFIXES: .. .abcdef .abcdefg\n..:\n\techo 1\n.abcdef:\n\techo 2\n.abcdefg:\n");
+        run.names("x.. y.abcdef").build("x", 2, 0).prints("echo 1\n").build("y", 2, 0).prints("echo 2\n");
         // What is no suffix yet, or no more, is a name.
         new Run().load(".a:\n.SUFFIXES: .a\n").names(".a").build("", 0, 0).fates(".a", "2");
         new Run().load(".SUFFIXES: .a\n.SUFFIXES:\n.a:\n").names(".a").build("", 0, 0);
@@ -252,8 +260,8 @@ final class TextBounds {
     }
 
     private static void otherRuleLines() {
-        Sentence.of(5, "In any other rule line all targets and then all prerequisites are names, and are met in this "
-                + "order;");
+        Sentence.of(5, "In any other rule line all targets and then all prerequisites are names, and are met in "
+                + "this order;");
         new Run().load("d c: b a\n").names("d c b a").load("a b: c e\nf: a\n").names("d c b a e f");
         new Run().load("a: a\n").names("a").load("b b: b b\n").names("a b");
         new Run().load("B: a\n", -1).load("a B: c\n", -1).names("a").load("b c: d E f\n", -1).names("a b c d");
@@ -261,8 +269,8 @@ final class TextBounds {
     }
 
     private static void rulesOfTargets() {
-        Sentence.of(5, "each target has a RULE then, its prerequisites are appended to those it has, and the commands are "
-                + "its own.");
+        Sentence.of(5, "each target has a RULE then, its prerequisites are appended to those it has, and the "
+                + "commands are its own.");
         Run run = new Run().edit("p", 1).edit("q", 1).load("a b: p\n\techo $@ $?\na: q p\nb:\n").build("a", 2, 0);
         run.prints("echo a p q p\n").build("b", 2, 0).prints("echo b p\n").build("c", 2, 2);
         // A target without prerequisites and commands has a rule, a prerequisite has none.

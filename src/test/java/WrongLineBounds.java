@@ -45,7 +45,8 @@ final class WrongLineBounds {
         wrong("A=$a\nb:\nc: $A\n", 3, "b");
         right("A=$a\nb:\n", "b");
         wrong("a: " + "b".repeat(118) + "\n", 1, "");
-        wrong("a:" + " 1234567".repeat(14) + " 12345 \n" + "a:" + " 1234567".repeat(14) + " 123456\n", 2, "a 1234567 12345");
+        wrong("a:" + " 1234567".repeat(14) + " 12345 \n" + "a:" + " 1234567".repeat(14) + " 123456\n", 2,
+                "a 1234567 12345");
         wrong("a", 1, "");
         wrong("a b: c d: e\n", 1, "");
         wrong("A=1\n\nB=2\n:\n", 4, "");
@@ -111,8 +112,8 @@ final class WrongLineBounds {
     }
 
     private static void secondCommands() {
-        Sentence.of(5, "or a target of it (.DEFAULT, too) had commands of an earlier rule line (the same line's don't "
-                + "matter);");
+        Sentence.of(5, "or a target of it (.DEFAULT, too) had commands of an earlier rule line (the same line's "
+                + "don't matter);");
         right("a:\n\techo 1\n\techo 2\n", "a");
         right("a a:\n\techo 1\n\techo 2\n", "a");
         right("a:\n\techo\na: b\na:\n", "a b");
@@ -141,7 +142,8 @@ final class WrongLineBounds {
     private static void formsOfSuffixes() {
         Sentence.of(5, "when a suffix is not a name of two or more characters that begins with a point,");
         right(".SUFFIXES: .a .. ._ .0 .abcdefg .a.b.c.d\n", "");
-        for (String bad : new String[] {".", "a", "ab", "a.b", "_.a", ".A", ".a-", "-a", ".abcdefgh", "$$.", ".SILENT"}) {
+        for (String bad : new String[] {".", "a", "ab", "a.b", "_.a", ".A", ".a-", "-a", ".abcdefgh", "$$.",
+                ".SILENT"}) {
             wrong(".SUFFIXES: " + bad + "\n", 1, "");
             wrong("a:\n.SUFFIXES: .a .b " + bad + " .c\n", 2, "a");
         }
@@ -184,15 +186,18 @@ final class WrongLineBounds {
 
     private static void mostCommandLines() {
         Sentence.of(5, "30 command lines in all,");
-        String thirty = ".SUFFIXES: .a\n.a:\n" + "\t\n".repeat(9) + "a:\n" + "\t\n".repeat(10) + ".DEFAULT:\n" + "\t\n".repeat(11);
+        String thirty = ".SUFFIXES: .a\n.a:\n" + "\t\n".repeat(9) + "a:\n" + "\t\n".repeat(10) + ".DEFAULT:\n"
+                + "\t\n".repeat(11);
         right(thirty, "a");
         wrong(thirty + "\t\n", 35, "a");
         wrong(thirty + "b:\n\techo\n", 36, "a b");
         wrong("a:\n" + "\t\n".repeat(31) + "b:\n", 32, "a");
         // Those of an ending rule whose place was taken are command lines of the text, too.
         wrong(".SUFFIXES: .a\n" + ".a:\n\t\n".repeat(31), 63, "");
-        new Run().load("a:\n" + "\t\n".repeat(29) + "\techo x\n").build("", 0, 0).done(30).prints("\n".repeat(29) + "echo x\nx\n");
-        new Run().load("a:\n" + "\t\n".repeat(30)).load("a:\n" + "\t\n".repeat(30)).load("a:\n" + "\t\n".repeat(31), -32);
+        new Run().load("a:\n" + "\t\n".repeat(29) + "\techo x\n").build("", 0, 0).done(30)
+                .prints("\n".repeat(29) + "echo x\nx\n");
+        new Run().load("a:\n" + "\t\n".repeat(30)).load("a:\n" + "\t\n".repeat(30))
+                .load("a:\n" + "\t\n".repeat(31), -32);
     }
 
     private static void mostEndings() {
