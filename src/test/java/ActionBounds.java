@@ -44,6 +44,7 @@ final class ActionBounds {
             "t", ">", "a", "touch\ta", "$$", "echo,"};
         for (String other : others) {
             fails(new Run().edit("a", 1).edit("b", 1), other + " a b").names("a b t").prints("").times("a b", "1 2");
+            fails(new Run().edit("a", 1).edit("b", 1), other + " a > b").names("a b t").times("a b", "1 2");
         }
         String[] bare = {"touch", "rm", "cp", "cp a", "cp a b c", "cp x", "cat", "cat a", "cat a b", "cat > b",
                 "cat a >", "cat >",
@@ -150,6 +151,8 @@ final class ActionBounds {
         does(new Run().edit("a", 7).edit("b", 8), "rm a").times("a b", "0 2").contents("a b", "0 8");
         does(new Run().edit("a", 7).edit("b", 8), "rm a b c a").times("a b c", "0 0 0").contents("a b", "0 0")
                 .names("a b t c");
+        // The target itself stays, if it is a file that is none of them.
+        new Run().edit("a", 1).edit("t", 2).load(".PHONY: t\nt:\n\trm a\n").build("", 0, 0).times("a t", "0 2");
         // The time of the next file is what it would have been.
         does(new Run().edit("a", 7), "rm a").edit("a", 1).times("a", "2");
     }

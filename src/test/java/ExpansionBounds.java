@@ -186,6 +186,16 @@ final class ExpansionBounds {
         isWrong(value, "b".repeat(95) + "$(A:2345678=)");
         isWrong(value + "C=$(A:12345678=)\n", "b".repeat(95) + "$C");
         becomes(value + "C=$(A:12345678=)\n", "b".repeat(94) + "$C", "b".repeat(94) + "  ");
+        // So it is with one that comes to nothing, and whenever it stands there again.
+        String nothing = "A=$(B:12345=)\nB=12345\nC=$D$A$D\n";
+        becomes(nothing, "$A" + "b".repeat(115) + "$A$C", "b".repeat(115));
+        isWrong(nothing, "$A" + "b".repeat(116) + "$A");
+        isWrong(nothing, "$C$C" + "b".repeat(116) + "$C");
+        isWrong(nothing, "$C" + "b".repeat(116) + "$A");
+        isWrong(nothing + "E=$A$D\n", "$E" + "b".repeat(116) + "$E");
+        becomes(nothing, "$A$D" + "b".repeat(120) + "$D", "b".repeat(120));
+        becomes(nothing + "E=$D\n", "$C$E" + "b".repeat(120) + "$E$D", "b".repeat(120));
+        isWrong(nothing + "E=$A\nF=$A\n", "$E$F" + "b".repeat(116) + "$F");
         // And what they became stands there as well.
         becomes("A=1 2 3\n", "b".repeat(112) + "$(A:=x)", "b".repeat(112) + "1x 2x 3x");
         isWrong("A=1 2 3\n", "b".repeat(113) + "$(A:=x)");

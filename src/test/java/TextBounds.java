@@ -118,6 +118,8 @@ final class TextBounds {
         new Run().load("a", -1).load("a b", -1).load("a::", -1).load("a: b:", -1).load("a:b:c:d", -1).names("");
         new Run().load(":", -1).load(": a", -1).load("  :  ", -1).load("::", -1).names("");
         new Run().load("a:").load("b:c").load("d e f:").load("g h: i j k\n").names("a b c d e f g h i j k");
+        // As many words as an expansion has room for.
+        new Run().load("a:" + "b ".repeat(58) + "c\n").names("a b c").load("a ".repeat(59) + ":b\n").names("a b c");
         // The colons are those of the expansion.
         new Run().set("C=:").load("a $C b\n").load("c$(C)\n").load("$C d\n", -1).load("a: b$C\n", -1).names("a b c");
         new Run().load("$D a: b\n$D: c\n", -2).load("a: b $(D:x:y=z)\n").load("a b $(D:x:y=z)\n", -1).names("a b");

@@ -58,7 +58,7 @@ final class UpdateBounds {
         run.build(".o", 2, 2).fates(".o", "3").build("a.o", 2, 0).prints("echo a\n").build("..o", 2, 0)
                 .prints("echo .\n");
         run.build("abcdef.o", 2, 0).prints("echo abcdef\n").build("o", 2, 2).build("ao", 2, 2).build("a.oo", 2, 2)
-                .build("a.o.", 2, 2);
+                .build("a.o.", 2, 2).build("a_o", 2, 2).build("a.p", 2, 2);
         // A suffix is all of a name's end, with its first point.
         new Run().edit("a.c", 1).load(".SUFFIXES: .c .b.o\n.c.b.o:\n\techo $*\n").build("a.o", 2, 2).build("b.o", 2, 2)
                 .build(".b.o", 2, 2).build("a.b.o", 2, 0).prints("echo a\n");
@@ -159,6 +159,9 @@ final class UpdateBounds {
         // It failed as a prerequisite only: for one that comes later, it is still under way.
         run = new Run().load("a: b c\nb: a\nc: a d\nd:\n").build("", 1, 2).fates("a b c d", "3 3 3 2");
         run.build("d", 0, 0).fates("a b c d", "0 0 0 2");
+        // Nothing of its update is done anew there: a file that would be its source by now is not looked for.
+        run = new Run().load(".SUFFIXES: .c\n.c:\n\techo\na: x b\nx:\n\ttouch a.c\nb: a\n").build("", 0, 2);
+        run.fates("a x b a.c", "3 2 3 0").times("a.c", "1");
         // As a source.
         new Run().load(".SUFFIXES: .c .o\n.c.o:\n\techo\na.c: a.o\n").build("a.o", 0, 2).fates("a.o a.c", "3 3");
     }
@@ -222,6 +225,9 @@ final class UpdateBounds {
         run = new Run().edit("s.c", 1).edit("s.o", 1).load(".SUFFIXES: .c .o\n.c.o:\n\techo t\n").build("s.o", 0, 0)
                 .fates("s.o", "1");
         run.edit("s.c", 1).build("s.o", 0, 0).fates("s.o s.c", "2 1");
+        // What is a file no more, is none whose time is greater, though t is no file either.
+        run = new Run().edit("a", 1).load("t: a e\n\t<$?>\ne:\n\t+rm a\n").build("", 2, 0);
+        run.prints("rm a\n<e>\n").fates("a", "1");
         // The times are those behind step 2.
         run = new Run().edit("s", 1).edit("t", 1).edit("u", 1).edit("t", 1)
                 .load("t: s u\n\techo $?\nu: v\n\ttouch s\nv:\n");
