@@ -142,6 +142,8 @@ final class ExpansionBounds {
         isWrong(chain + "F=$G\nG=x\n", "$B$A");
         isWrong("A=$A\n", "$A");
         isWrong("A=$B\nB=$A\n", "x$A");
+        becomes("U=$V\nV=$W\nW=$X\nX=$Y\nY=$Z\nZ=z\n", "$U", "z");
+        becomes("U=$V\nV=$W\nW=$X\nX=$Y\nY=$Z$A$Z\n", "<$U$U$Z>", "<>");
         // In a text of the level 6, the other ones stand as ever.
         new Run().load(chain + "F=$@$<$?$*$$\nt:\n\t$A\n").build("", 2, 0).prints("t$\n");
     }
