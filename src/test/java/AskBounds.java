@@ -15,6 +15,7 @@ final class AskBounds {
         done();
         printed();
         printedAt();
+        askingChangesNothing();
     }
 
     private static void names() {
@@ -153,5 +154,28 @@ final class AskBounds {
                 .printedAtRefused(400);
         run = new Run().load(text + "89").build("", 2, 0).asks("printedAt(399)", b -> b.printedAt(399), '8')
                 .printedAtRefused(400);
+    }
+
+    private static void askingChangesNothing() {
+        Sentence.of(9, "How many names were met.");
+        String text = ".SUFFIXES: .c .o\n.c.o:\n\tcp $< $@\nt: s.o u\n\t-false\n\techo $M\nu:\n";
+        Run run = new Run().edit("s.c", 9).set("M=m").load(text).build("", 0, 0).type("s.");
+        String print = "cp s.c s.o\nfalse\necho m\nm\n";
+        run.prints(print).leavesAll("names", RuleBuilder::names, 4);
+        Sentence.of(10, "The code of character i of name k");
+        run.leavesAll("nameAt(2, 0)", b -> b.nameAt(2, 0), 's').leavesAll("nameAt(0, 2)", b -> b.nameAt(0, 2), 'c');
+        Sentence.of(11, "The time of name k");
+        run.leavesAll("time(0)", b -> b.time(0), 1).leavesAll("time(1)", b -> b.time(1), 0);
+        Sentence.of(12, "The content of name k");
+        run.leavesAll("content(2)", b -> b.content(2), 9).leavesAll("content(4)", b -> b.content(4), 0);
+        Sentence.of(13, "What became of name k in the latest build");
+        run.leavesAll("fate(1)", b -> b.fate(1), 2).leavesAll("fate(0)", b -> b.fate(0), 1);
+        Sentence.of(14, "How many commands were done in the latest build");
+        run.leavesAll("done", RuleBuilder::done, 3);
+        Sentence.of(15, "How many characters the print of the latest build has");
+        run.leavesAll("printed", RuleBuilder::printed, print.length());
+        Sentence.of(16, "The code of character i of the print");
+        run.leavesAll("printedAt(10)", b -> b.printedAt(10), '\n').leavesAll("printedAt(0)", b -> b.printedAt(0), 'c');
+        run.edit("c", 10, "s.c").build("t", 0, 0).prints(print).contents("s.c s.o", "10 10");
     }
 }

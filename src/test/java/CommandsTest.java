@@ -137,7 +137,7 @@ public final class CommandsTest {
 
     private static void print() {
         Probe probe = new Probe().load("t:\n\techo ab\n").build(0, 0);
-        RuleBuilder builder = probe.builder;
+        Subject builder = probe.builder;
         String want = "echo ab\nab\n";
         Probe.due("printed", builder.printed(), want.length());
         for (int i = 0; i < want.length(); i++) {

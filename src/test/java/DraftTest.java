@@ -30,9 +30,8 @@ public final class DraftTest {
         Probe.due("type of the 321st again", probe.builder.type('\t'), false);
         // The one that was refused would make line 2 wrong.
         probe.load("").type("a");
-        probe.builder.scrap();
 
-        probe.type("#".repeat(317)).type("\na:");
+        probe = new Probe().type("#".repeat(317)).type("\na:");
         Probe.due("type of the 321st behind a rule", probe.builder.type(':'), false);
         probe.load("").build(0, 0).names("a");
     }
@@ -43,9 +42,10 @@ public final class DraftTest {
         probe.edit("x", 1).names("x");
         probe.builder.scrap();
         Probe.due("edit of a scrapped draft", probe.builder.edit(1), -1);
-        probe.type("x".repeat(320));
+        probe.type("x".repeat(100));
         probe.builder.scrap();
         probe.type("y".repeat(320));
+        Probe.due("type of the 321st behind a scrapped draft", probe.builder.type('y'), false);
         probe.builder.scrap();
 
         // Only the draft goes.

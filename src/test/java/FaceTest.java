@@ -23,6 +23,13 @@ public final class FaceTest {
             }
         }
         Probe.due("the methods", String.join(" ", seen), FACE);
+        Set<String> told = new TreeSet<>();
+        for (String method : Sentence.face()) {
+            int space = method.indexOf(' ');
+            String call = method.substring(space + 1).replaceAll("(int|char) \\w+", "$1").replace(" ", "");
+            told.add(call + ":" + method.substring(0, space));
+        }
+        Probe.due("the methods of the document", String.join(" ", told), told.isEmpty() ? "" : FACE);
         for (Field field : face.getDeclaredFields()) {
             boolean isPrivate = Modifier.isPrivate(field.getModifiers());
             Probe.due("field " + field.getName(), isPrivate || field.getName().equals("NONE"), true);

@@ -61,7 +61,7 @@ public final class FilesTest {
 
     private static void asking() {
         Probe probe = new Probe().edit("a", 5).load("x:\n");
-        RuleBuilder builder = probe.builder;
+        Subject builder = probe.builder;
         int[] none = {2, -1, 32, Integer.MAX_VALUE, Integer.MIN_VALUE};
         for (int k : none) {
             Probe.due("time(" + k + ")", builder.time(k), -1);

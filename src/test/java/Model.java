@@ -622,7 +622,7 @@ final class Model {
         return all.append(done).append('\n').append(print).toString();
     }
 
-    static String state(RuleBuilder builder) {
+    static String state(Subject builder) {
         StringBuilder all = new StringBuilder();
         for (int k = 0; k < builder.names(); k++) {
             for (int i = 0; builder.nameAt(k, i) >= 0; i++) {

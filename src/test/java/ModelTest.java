@@ -10,6 +10,11 @@ public final class ModelTest {
     private static final String[] BAD_REFERENCES = {"$", "$(", "$(A", "$(1)", "$(A:b)", "$a", "$(A=b)", "$(:a=b)",
         "$()", "$(AB)", "$(@)"};
 
+    // The call that takes the draft, one in between, scrapping, and room for one question more.
+    private static final int OTHER_CALLS_OF_A_STEP = 4;
+
+    private final Subject subject = new Subject();
+    private final Model model = new Model();
     private long seed;
 
     // In every second run hardly anything is wrong, and files are there, so that builds get far.
@@ -47,51 +52,74 @@ public final class ModelTest {
     }
 
     private void compare(int run) {
-        RuleBuilder builder = new RuleBuilder();
-        Model model = new Model();
         StringBuilder told = new StringBuilder("run ").append(run).append('\n');
         int steps = 4 + draw(10);
         for (int step = 0; step < steps; step++) {
-            String got;
-            String want;
             int kind = step == 0 ? 0 : tame && step < 4 ? 3 : draw(12);
-            int number = chance(90) ? draw(64) : draw(80) - 10;
-            if (chance(40)) {
-                number = 0;
-            }
+            int number = chance(40) ? 0 : chance(90) ? draw(64) : draw(80) - 10;
             String text = textFor(kind);
+            // The draft refuses the last of these, if there are so many.
+            text = text.substring(0, Math.min(text.length(), 321));
+            if (subject.room() < text.length() + OTHER_CALLS_OF_A_STEP) {
+                break;
+            }
             told.append(kind).append(' ').append(number).append(" <").append(text).append(">\n");
-            for (char c : text.toCharArray()) {
-                Probe.due("type", builder.type(c), model.type(c));
-            }
-            if (kind <= 1) {
-                got = "load " + builder.load();
-                want = "load " + model.load();
-            } else if (kind == 2) {
-                got = "set " + builder.set();
-                want = "set " + model.set();
-            } else if (kind <= 4) {
-                got = "edit " + builder.edit(number);
-                want = "edit " + model.edit(number);
-            } else if (kind == 5) {
-                got = "erase " + builder.erase();
-                want = "erase " + model.erase();
-            } else {
-                got = "build " + builder.build(number);
-                want = "build " + model.build(number);
-            }
-            String gotState = got + "\n" + Model.state(builder);
-            String wantState = want + "\n" + model.state();
-            if (!gotState.equals(wantState)) {
-                Probe.due(told.toString(), gotState, wantState);
+            type(text);
+            String got = callOfProgram(kind, number) + "\n" + Model.state(subject);
+            String want = callOfModel(kind, number) + "\n" + model.state();
+            if (!got.equals(want)) {
+                Probe.due(told.toString(), got, want);
                 return;
             }
+            askInBetween();
             if (chance(95)) {
-                builder.scrap();
+                subject.scrap();
                 model.scrap();
             }
         }
         Probe.due("the whole run", true, true);
+    }
+
+    private void type(String text) {
+        for (char c : text.toCharArray()) {
+            Probe.due("type", subject.type(c), model.type(c));
+        }
+    }
+
+    private String callOfProgram(int kind, int number) {
+        switch (kind) {
+            case 0, 1: return "load " + subject.load();
+            case 2: return "set " + subject.set();
+            case 3, 4: return "edit " + subject.edit(number);
+            case 5: return "erase " + subject.erase();
+            default: return "build " + subject.build(number);
+        }
+    }
+
+    private String callOfModel(int kind, int number) {
+        switch (kind) {
+            case 0, 1: return "load " + model.load();
+            case 2: return "set " + model.set();
+            case 3, 4: return "edit " + model.edit(number);
+            case 5: return "erase " + model.erase();
+            default: return "build " + model.build(number);
+        }
+    }
+
+    /** Asks the object itself, which must not change it for the calls that follow. */
+    private void askInBetween() {
+        int k = draw(34) - 1;
+        switch (draw(9)) {
+            case 0: subject.make(RuleBuilder::names); break;
+            case 1: subject.make(b -> b.nameAt(k, 0)); break;
+            case 2: subject.make(b -> b.time(k)); break;
+            case 3: subject.make(b -> b.content(k)); break;
+            case 4: subject.make(b -> b.fate(k)); break;
+            case 5: subject.make(RuleBuilder::done); break;
+            case 6: subject.make(RuleBuilder::printed); break;
+            case 7: subject.make(b -> b.printedAt(k)); break;
+            default: break;
+        }
     }
 
     private String textFor(int kind) {

@@ -16,7 +16,7 @@ public final class NamesTest {
     }
 
     private static void edges() {
-        RuleBuilder builder = new Probe().edit("a", 1).edit("z9._abcd", 1).builder;
+        Subject builder = new Probe().edit("a", 1).edit("z9._abcd", 1).builder;
         Probe.due("names", builder.names(), 2);
         String name = "z9._abcd";
         for (int i = 0; i < 8; i++) {

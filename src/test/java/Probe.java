@@ -4,7 +4,7 @@ final class Probe {
     private static int asked = 0;
     private static String about = "";
 
-    final RuleBuilder builder = new RuleBuilder();
+    final Subject builder = new Subject();
 
     /** What is told before each answer that is not due, from now on. */
     static void about(String words) {

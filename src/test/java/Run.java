@@ -2,50 +2,32 @@ import java.util.ArrayList;
 import java.util.List;
 import java.util.function.ToIntFunction;
 
-/**
- * A run of calls on a new object that can be made again: what it left is looked at on copies, so that looking changes
- * nothing and no object is used for more calls than the document allows.
- */
+/** A run of calls on a new object that can be made again, and what is due behind it. */
 final class Run {
-    static final int MOST_CALLS = 512;
-    static final int YES = 1;
-    static final int NO = 0;
+    private static final int YES = Subject.YES;
+    private static final int NO = Subject.NO;
 
-    private final List<ToIntFunction<RuleBuilder>> calls = new ArrayList<>();
-    private final RuleBuilder builder = new RuleBuilder();
+    private final Subject subject;
 
-    // The copy that is looked at, and how many calls it has had; none behind a new call.
-    private RuleBuilder copy;
-    private int callsOfCopy;
-
-    private int make(ToIntFunction<RuleBuilder> call) {
-        if (calls.size() == MOST_CALLS) {
-            throw new IllegalStateException("this test makes more than " + MOST_CALLS + " calls on one object");
-        }
-        calls.add(call);
-        copy = null;
-        return call.applyAsInt(builder);
+    Run() {
+        this(new Subject());
     }
 
-    private int look(ToIntFunction<RuleBuilder> call) {
-        if (copy == null || callsOfCopy == MOST_CALLS) {
-            copy = new RuleBuilder();
-            for (ToIntFunction<RuleBuilder> earlier : calls) {
-                earlier.applyAsInt(copy);
-            }
-            callsOfCopy = calls.size();
-        }
-        callsOfCopy++;
-        return call.applyAsInt(copy);
+    private Run(Subject subject) {
+        this.subject = subject;
+    }
+
+    private int make(ToIntFunction<RuleBuilder> call) {
+        return subject.make(call);
+    }
+
+    private int look(ToIntFunction<RuleBuilder> question) {
+        return subject.ask(question);
     }
 
     /** A run that has made the same calls. */
     private Run again() {
-        Run run = new Run();
-        for (ToIntFunction<RuleBuilder> call : calls) {
-            run.make(call);
-        }
-        return run;
+        return new Run(subject.again());
     }
 
     private static ToIntFunction<RuleBuilder> typing(char c) {
@@ -121,9 +103,8 @@ final class Run {
         return this;
     }
 
-    // Calls that are refused: each is made, and then it is shown that nothing has changed.
-
-    private Run refused(String what, ToIntFunction<RuleBuilder> call, int want) {
+    /** A call that answers this, and changes nothing that any other call could show. */
+    Run leavesAll(String what, ToIntFunction<RuleBuilder> call, int want) {
         List<String> before = allSides();
         Probe.due(what, make(call), want);
         List<String> after = allSides();
@@ -133,40 +114,42 @@ final class Run {
         return this;
     }
 
+    // Calls that are refused.
+
     Run typeRefused(int code) {
-        return refused("type " + code, typing((char) code), NO);
+        return leavesAll("type " + code, typing((char) code), NO);
     }
 
     Run setRefused() {
-        return refused("set", b -> b.set() ? YES : NO, NO);
+        return leavesAll("set", b -> b.set() ? YES : NO, NO);
     }
 
     Run editRefused(int content) {
-        return refused("edit(" + content + ")", b -> b.edit(content), RuleBuilder.NONE);
+        return leavesAll("edit(" + content + ")", b -> b.edit(content), RuleBuilder.NONE);
     }
 
     Run eraseRefused() {
-        return refused("erase", b -> b.erase() ? YES : NO, NO);
+        return leavesAll("erase", b -> b.erase() ? YES : NO, NO);
     }
 
     Run buildRefused(int options) {
-        return refused("build(" + options + ")", b -> b.build(options), RuleBuilder.NONE);
+        return leavesAll("build(" + options + ")", b -> b.build(options), RuleBuilder.NONE);
     }
 
     Run nameAtRefused(int k, int i) {
-        return refused("nameAt(" + k + ", " + i + ")", b -> b.nameAt(k, i), RuleBuilder.NONE);
+        return leavesAll("nameAt(" + k + ", " + i + ")", b -> b.nameAt(k, i), RuleBuilder.NONE);
     }
 
     Run timeRefused(int k) {
-        return refused("time(" + k + ")", b -> b.time(k), RuleBuilder.NONE);
+        return leavesAll("time(" + k + ")", b -> b.time(k), RuleBuilder.NONE);
     }
 
     Run fateRefused(int k) {
-        return refused("fate(" + k + ")", b -> b.fate(k), RuleBuilder.NONE);
+        return leavesAll("fate(" + k + ")", b -> b.fate(k), RuleBuilder.NONE);
     }
 
     Run printedAtRefused(int i) {
-        return refused("printedAt(" + i + ")", b -> b.printedAt(i), RuleBuilder.NONE);
+        return leavesAll("printedAt(" + i + ")", b -> b.printedAt(i), RuleBuilder.NONE);
     }
 
     /** The draft is no name: whatever takes one refuses it. */
@@ -179,7 +162,7 @@ final class Run {
         setRefused().editRefused(5).eraseRefused();
         Run other = again();
         // Where a whole draft has no room in the calls of an object, the refusals above must do.
-        if (calls.size() + 321 <= MOST_CALLS) {
+        if (subject.room() >= 321) {
             for (int i = 0; i < 320; i++) {
                 Probe.due("type " + i + " of an empty draft", other.make(typing('x')), YES);
             }

@@ -1,7 +1,11 @@
 import java.io.IOException;
 import java.nio.file.Files;
 import java.nio.file.Path;
+import java.util.ArrayList;
 import java.util.Arrays;
+import java.util.List;
+import java.util.regex.Matcher;
+import java.util.regex.Pattern;
 
 /**
  * The sentence of the document that is tested at the moment. Each must stand in the document under its promise, or
@@ -9,7 +13,10 @@ import java.util.Arrays;
  */
 final class Sentence {
     private static final Path DOCUMENT = Path.of("..", "shared", "DOC.md");
-    private static final String TEXT = read();
+    private static final String HEADLINE =
+            "#+ (What it is|The public face|Terms|Promise \\d+: \\w+( new object)?)";
+    private static final String WHOLE = read();
+    private static final String TEXT = sentences();
     private static final boolean[] NAMED = new boolean[TEXT.length()];
 
     private Sentence() {
@@ -21,11 +28,25 @@ final class Sentence {
             return "";
         }
         try {
-            String all = Files.readString(DOCUMENT).replaceAll("(?s)```java.*?```", " ").replace("```text", " ");
-            return all.replace("```", " ").replaceAll("\\s+", " ");
+            return Files.readString(DOCUMENT);
         } catch (IOException e) {
             throw new IllegalStateException(e);
         }
+    }
+
+    private static String sentences() {
+        String all = WHOLE.replaceAll("(?s)```java.*?```", " ").replace("```text", " ");
+        return all.replace("```", " ").replaceAll("\\s+", " ");
+    }
+
+    /** The methods of the document's face, such as "boolean type(char c)", or none if there is no document. */
+    static List<String> face() {
+        List<String> methods = new ArrayList<>();
+        Matcher method = Pattern.compile("\n    public (\\w+ \\w+\\(.*\\));").matcher(WHOLE);
+        while (method.find()) {
+            methods.add(method.group(1));
+        }
+        return methods;
     }
 
     /** What is due from now on is due by this sentence, for the sake of this promise. */
@@ -47,15 +68,15 @@ final class Sentence {
         }
     }
 
-    /** Tells the parts of the document, from its terms up to what is not promised, that no test has named. */
+    /** Tells the parts of the document, from its first line up to what is not promised, that no test has named. */
     static void allAreNamed() {
         Probe.about("");
         StringBuilder left = new StringBuilder();
-        for (int i = TEXT.indexOf("## Terms") + 1; i > 0 && i < TEXT.indexOf("## Not promised"); i++) {
+        for (int i = TEXT.indexOf("## What it is") + 1; i > 0 && i < TEXT.indexOf("## Not promised"); i++) {
             left.append(NAMED[i] ? '\n' : TEXT.charAt(i));
         }
         for (String part : left.toString().split("\n+")) {
-            String words = part.replaceAll("#+ (Terms|Promise \\d+: \\w+( new object)?)", "").replaceAll("`.*?`:", "");
+            String words = part.replaceAll(HEADLINE, "").replaceAll("`.*?`:", "");
             Probe.due("what no test names", words.replaceAll("[^A-Za-z]", "").isEmpty() ? "" : words, "");
         }
     }

@@ -4,6 +4,7 @@ final class TermsBounds {
     }
 
     static void check() {
+        whatItIs();
         lengthsOfNames();
         charactersOfNames();
         numbersOfNames();
@@ -15,6 +16,23 @@ final class TermsBounds {
         words();
         refusedCalls();
         mostCalls();
+    }
+
+    private static void whatItIs() {
+        Sentence.of(8, "Builds files by a text of rules: macros, targets with what they are made from, rules for "
+                + "endings, and commands, which are carried out on a small store of files, each at most once in a build "
+                + "and only where something is out of date.");
+        String text = "O=a.o b.o\n.SUFFIXES: .c .o\n.c.o:\n\tcp $< $@\np: $O h q a.o\n\tcat $O > $@\n"
+                + "q: $O\n\tcat b.o h > q\na.o: h\n";
+        Run run = new Run().edit("a.c", 1).edit("b.c", 2).edit("h", 3).load(text).build("", 0, 0).done(4);
+        run.prints("cp a.c a.o\ncp b.c b.o\ncat b.o h > q\ncat a.o b.o > p\n").contents("a.o b.o q p", "1 2 97 65");
+        run.times("a.c b.c h a.o b.o q p", "1 2 3 4 5 6 7").fates("a.c b.c h a.o b.o q p", "1 1 1 2 2 2 2");
+        run.build("", 0, 0).done(0).prints("").fates("a.c b.c h a.o b.o q p", "1 1 1 1 1 1 1");
+        // What is made from b.c alone, and from what is made from it.
+        run.edit("b.c", 8).build("", 0, 0).done(3).prints("cp b.c b.o\ncat b.o h > q\ncat a.o b.o > p\n");
+        run.times("a.c b.c h a.o b.o q p", "1 8 3 4 9 10 11").contents("a.o b.o q p", "1 8 283 71");
+        run.edit("h", 3).build("q", 0, 0).done(2).prints("cp a.c a.o\ncat b.o h > q\n");
+        run.build("", 0, 0).done(1).prints("cat a.o b.o > p\n").build("", 0, 0).done(0);
     }
 
     private static void lengthsOfNames() {
