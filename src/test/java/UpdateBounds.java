@@ -15,6 +15,7 @@ final class UpdateBounds {
         orderOfUpdates();
         underWay();
         longestChain();
+        longestChainWithSources();
         failures();
         outOfDate();
         newerTimes();
@@ -179,6 +180,20 @@ final class UpdateBounds {
         new Run().load(text + "5:a\n").build("", 0, 2).fates(all.toString(), "3 ".repeat(32).trim());
         new Run().load(text + "5:a\n").build("5", 1, 2).fates(all.toString(), "3 ".repeat(32).trim());
         new Run().load(text.toString()).build("", 0, 2).fates(all.toString(), "3 ".repeat(32).trim());
+    }
+
+    private static void longestChainWithSources() {
+        Sentence.of(8, "The source, if there is one, and then the prerequisites, in their order, are updated");
+        // From the last suffix to the first by sources, behind as many prerequisites as there is room for names.
+        StringBuilder text = new StringBuilder(".SUFFIXES: .a .b .c .d\n.a.b:\n\ttrue\n.b.c:\n\ttrue\n");
+        text.append(".c.d:\n\ttrue\nx.b x.c:\n");
+        String letters = "abcdefghijklmnopqrstuvwxyz01";
+        for (int i = 0; i + 1 < letters.length(); i++) {
+            text.append(letters.charAt(i)).append(':').append(letters.charAt(i + 1)).append('\n');
+        }
+        text.append("1:x.d\n");
+        Run run = new Run().edit("x.a", 1).load(text.toString()).build("a", 0, 0).done(3);
+        run.fates("x.a x.b x.c x.d 1 a", "1 2 2 2 2 2").asks("names", RuleBuilder::names, 32);
     }
 
     private static void failures() {
